@@ -442,9 +442,9 @@ public final class OnePair {
         int houses = plan.valley.houses.count;
         for (int a = 0; a < houses; a++) {
             for (int b = a + 1; b < houses; b++) {
-                int yield = plan.yieldWith(1 << a | 1 << b);
-                if (yield > greatest) {
-                    greatest = yield;
+                int made = plan.yieldWith(1 << a | 1 << b);
+                if (made > greatest) {
+                    greatest = made;
                     found = second ? b : a;
                 }
             }
@@ -601,9 +601,9 @@ public final class OnePair {
         int greatest = most + plan.touchRows(0);
         int found = NONE;
         for (int h = 0; h < plan.valley.houses.count; h++) {
-            int yield = plan.yieldWith(1 << h);
-            if (yield > greatest) {
-                greatest = yield;
+            int made = plan.yieldWith(1 << h);
+            if (made > greatest) {
+                greatest = made;
                 found = h;
             }
         }
