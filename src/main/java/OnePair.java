@@ -390,7 +390,7 @@ public final class OnePair {
         switch (what) {
             case 0: return most + plan.touchRows(0);
             case 1: return trip.spoiled(plan);
-            case 2: return trip.idle(plan);
+            case 2: return trip.idle(plan.slots);
             case 3: return trip.slotsAt(NONE, plan.slots);
             case 4: return trip.longest(plan.slots);
             case 5: return dearest(most);
@@ -648,7 +648,7 @@ public final class OnePair {
         }
 
         int cell(int k, int i) {
-            return isCell(k, i) ? cells[k * width + i] : NONE;
+            return k >= 0 && k < count && i >= 0 && i < width ? cells[k * width + i] : NONE;
         }
 
         /** Adds a row of NONE, if there is room. */
@@ -734,26 +734,22 @@ public final class OnePair {
             if (a == b || byPace < 1) {
                 return 0;
             }
-            return Math.max(1, (stepsBetween(a, b) + byPace - 1) / byPace);
+            int steps = Math.abs(houses.cell(a, HEIGHT) - houses.cell(b, HEIGHT));
+            return Math.max(1, (steps + byPace - 1) / byPace);
         }
 
         boolean isTouch(int h) {
             return houses.cell(h, KIND) == TOUCH;
         }
 
-        /** Whether a HOUSE SEES in a slot, if the pair is there. */
-        boolean seesIn(int h, int slot) {
-            return houses.cell(h, KIND) != COLOUR || (slot >= lightFrom && slot < lightTo);
+        /** Whether a HOUSE of a KIND SEES in a slot, if the pair is there. */
+        boolean seesBy(int kind, int slot) {
+            return kind != COLOUR || (slot >= lightFrom && slot < lightTo);
         }
 
         int rateOf(int h, boolean cracked) {
             int rate = houses.cell(h, RATE);
             return cracked && houses.cell(h, KIND) > EYE ? rate / 2 : rate;
-        }
-
-        /** What the pair gains in a slot at a HOUSE that MAY work. */
-        int gainAt(int h, int slot, boolean cracked) {
-            return !isTouch(h) && seesIn(h, slot) ? rateOf(h, cracked) : 0;
         }
     }
 
@@ -1131,6 +1127,9 @@ public final class OnePair {
         final int[] heir = new int[HOUSES];
         final boolean[] dead = new boolean[HOUSES];
         private final boolean[] given = new boolean[DEEDS];
+        /** Slots of the week that the DEED at hand is of: from begin on, below close. */
+        private int begin = 0;
+        private int close = 0;
 
         Claims() {
         }
@@ -1153,6 +1152,7 @@ public final class OnePair {
         int replay(Sheet deeds, int n) {
             clear();
             for (int k = 0; k < n && k < deeds.count; k++) {
+                findSlots(deeds, deeds.cell(k, 0) == BACK ? deeds.cell(k, 1) : k);
                 if (!canBe(deeds, k)) {
                     return k;
                 }
@@ -1190,9 +1190,9 @@ public final class OnePair {
             int one = deeds.cell(k, 1);
             int two = deeds.cell(k, 2);
             switch (deeds.cell(k, 0)) {
-                case OWN: return lives(one) && isAllOf(deeds, k, NONE);
+                case OWN: return lives(one) && isAllOf(NONE);
                 case SELL:
-                case PAWN: return lives(one) && lives(two) && isAllOf(deeds, k, one);
+                case PAWN: return lives(one) && lives(two) && isAllOf(one);
                 case BACK: return one >= 0 && one < k && one < DEEDS && deeds.cell(one, 0) == PAWN && !given[one];
                 case WILL: return lives(one) && lives(two);
                 case DIES: return lives(one);
@@ -1200,21 +1200,17 @@ public final class OnePair {
             }
         }
 
-        /** Where the slots of an own, sell or pawn begin in the week. */
-        private static int beginOf(Sheet deeds, int k) {
+        /** Finds which slots of the week an own, sell or pawn is of (begin, close). */
+        private void findSlots(Sheet deeds, int k) {
             int i = deeds.cell(k, 0) == OWN ? 2 : 3;
-            return Math.max(0, deeds.cell(k, i) * SLOTS + deeds.cell(k, i + 1));
+            int first = deeds.cell(k, i) * SLOTS;
+            begin = Math.max(0, first + deeds.cell(k, i + 1));
+            close = Math.min(WEEK_DAYS * SLOTS, first + deeds.cell(k, i + 2));
         }
 
-        private static int closeOf(Sheet deeds, int k) {
-            int i = deeds.cell(k, 0) == OWN ? 2 : 3;
-            return Math.min(WEEK_DAYS * SLOTS, deeds.cell(k, i) * SLOTS + deeds.cell(k, i + 2));
-        }
-
-        /** Whether all slots of a DEED are OWNED and HELD by one (NONE: OWNED by nobody). */
-        private boolean isAllOf(Sheet deeds, int k, int one) {
-            int close = closeOf(deeds, k);
-            for (int i = beginOf(deeds, k); i < close; i++) {
+        /** Whether all slots found are OWNED and HELD by one (NONE: OWNED by nobody). */
+        private boolean isAllOf(int one) {
+            for (int i = begin; i < close; i++) {
                 if (owner[i] != one || (one != NONE && holder[i] != one)) {
                     return false;
                 }
@@ -1226,19 +1222,18 @@ public final class OnePair {
             int one = deeds.cell(k, 1);
             int two = deeds.cell(k, 2);
             switch (deeds.cell(k, 0)) {
-                case OWN: handOver(deeds, k, one, true); break;
-                case SELL: handOver(deeds, k, two, true); break;
-                case PAWN: handOver(deeds, k, two, false); break;
-                case BACK: giveBack(deeds, one); break;
+                case OWN: handOver(one, true); break;
+                case SELL: handOver(two, true); break;
+                case PAWN: handOver(two, false); break;
+                case BACK: giveBack(one); break;
                 case WILL: bequeath(one, two); break;
                 case DIES: bury(one); break;
                 default: break;
             }
         }
 
-        private void handOver(Sheet deeds, int k, int house, boolean owns) {
-            int close = closeOf(deeds, k);
-            for (int i = beginOf(deeds, k); i < close; i++) {
+        private void handOver(int house, boolean owns) {
+            for (int i = begin; i < close; i++) {
                 holder[i] = house;
                 if (owns) {
                     owner[i] = house;
@@ -1246,13 +1241,12 @@ public final class OnePair {
             }
         }
 
-        private void giveBack(Sheet deeds, int pawn) {
+        private void giveBack(int pawn) {
             if (pawn < 0 || pawn >= DEEDS) {
                 return;
             }
             given[pawn] = true;
-            int close = closeOf(deeds, pawn);
-            for (int i = beginOf(deeds, pawn); i < close; i++) {
+            for (int i = begin; i < close; i++) {
                 holder[i] = owner[i];
             }
         }
@@ -1285,9 +1279,9 @@ public final class OnePair {
         /** HEIRS may name one another in a ring, all dead: then there is none. */
         private int livingHeir(int house) {
             int next = house;
-            for (int turn = 0; turn < HOUSES; turn++) {
-                next = next >= 0 && next < HOUSES ? heir[next] : NONE;
-                if (lives(next)) {
+            for (int turn = 0; turn < HOUSES && next >= 0 && next < HOUSES; turn++) {
+                next = heir[next];
+                if (next >= 0 && next < HOUSES && !dead[next]) {
                     return next;
                 }
             }
@@ -1338,10 +1332,11 @@ public final class OnePair {
         }
 
         boolean isRight(int house, int slot) {
-            if (valley.isTouch(house)) {
+            int kind = valley.houses.cell(house, KIND);
+            if (kind == TOUCH) {
                 return true;
             }
-            return slot >= 0 && slot < SLOTS && spot[slot] == house && valley.seesIn(house, slot);
+            return slot >= 0 && slot < SLOTS && spot[slot] == house && valley.seesBy(kind, slot);
         }
 
         private int rowsIn(int house, int slot) {
@@ -1481,6 +1476,7 @@ public final class OnePair {
         private int first = 0;
         private int days = 0;
         int slots = 0;
+        private final int[] rates = new int[HOUSES];
         private final int[] gain = new int[WEEK_DAYS * SLOTS * HOUSES];
         private final int[] must = new int[WEEK_DAYS * SLOTS];
         private final int[] free = new int[WEEK_DAYS * SLOTS + 1];
@@ -1504,23 +1500,26 @@ public final class OnePair {
         void fill(boolean cracked, int touch) {
             setPace(valley.pace);
             dropMusts();
+            for (int h = 0; h < valley.houses.count; h++) {
+                boolean isTouch = valley.isTouch(h) || (touch >> h & 1) == 1;
+                rates[h] = isTouch ? 0 : valley.rateOf(h, cracked);
+            }
             for (int i = 0; i < days; i++) {
                 for (int k = 0; k < valley.musts.count; k++) {
                     int begin = i * valley.slots;
                     require(valley.musts.cell(k, 0), begin + valley.musts.cell(k, 1), begin + valley.musts.cell(k, 2));
                 }
                 for (int slot = 0; slot < valley.slots; slot++) {
-                    fillSlot(i, slot, cracked, touch);
+                    fillSlot(i, slot);
                 }
             }
         }
 
-        private void fillSlot(int i, int slot, boolean cracked, int touch) {
+        private void fillSlot(int i, int slot) {
             int day = (first + i) % WEEK_DAYS;
             int begin = (i * valley.slots + slot) * HOUSES;
             for (int h = 0; h < valley.houses.count; h++) {
-                boolean works = (touch >> h & 1) == 0 && claims.mayWork(day, slot, h);
-                gain[begin + h] = works ? valley.gainAt(h, slot, cracked) : 0;
+                gain[begin + h] = claims.mayWork(day, slot, h) ? gainIfHeld(slot, h) : 0;
             }
         }
 
@@ -1702,7 +1701,8 @@ public final class OnePair {
                 int most = BAD;
                 int ahead = reach[(s - 1) * HOUSES + h];
                 if (ahead != BAD && canStay(s - 1, h)) {
-                    most = ahead + gainIfHeld(s - 1, h, holder) * UNIT;
+                    int more = holder == NONE ? gain[(s - 1) * HOUSES + h] : holder == h ? gainIfHeld(s - 1, h) : 0;
+                    most = ahead + more * UNIT;
                 }
                 for (int a = 0; a < valley.houses.count; a++) {
                     if (a != h) {
@@ -1713,11 +1713,9 @@ public final class OnePair {
             }
         }
 
-        private int gainIfHeld(int s, int h, int holder) {
-            if (holder == NONE) {
-                return gain[s * HOUSES + h];
-            }
-            return holder == h ? valley.gainAt(h, s, false) : 0;
+        /** What the pair gains at a HOUSE in a slot of the day, if it HELD it. */
+        private int gainIfHeld(int slot, int h) {
+            return valley.seesBy(valley.houses.cell(h, KIND), slot) ? rates[h] : 0;
         }
 
         private int arriving(int s, int a, int b) {
@@ -1747,7 +1745,7 @@ public final class OnePair {
             if (ahead == BAD || rest == BAD || !canStay(s, h)) {
                 return NONE;
             }
-            return gainOf(ahead + rest + valley.gainAt(h, s, false) * UNIT);
+            return gainOf(ahead + rest + gainIfHeld(s, h) * UNIT);
         }
     }
 
@@ -1807,10 +1805,10 @@ public final class OnePair {
             return sum;
         }
 
-        int idle(Plan plan) {
+        int idle(int slots) {
             int sum = 0;
-            for (int s = 0; s < plan.slots; s++) {
-                sum += spot[s] != NONE && gained[s] == 0 && plan.gainIn(s, spot[s]) == 0 ? 1 : 0;
+            for (int s = 0; s < slots; s++) {
+                sum += spot[s] != NONE && gained[s] == 0 ? 1 : 0;
             }
             return sum;
         }
@@ -1841,7 +1839,8 @@ public final class OnePair {
 
         private boolean works(Plan plan, int h, int s) {
             int holder = plan.holderOf(s);
-            return spot[s] == h && plan.valley.seesIn(h, s) && (holder == NONE || holder == h);
+            boolean sees = plan.valley.seesBy(plan.valley.houses.cell(h, KIND), s);
+            return spot[s] == h && sees && (holder == NONE || holder == h);
         }
 
         /** In how many unlike ways the plan's one day can be best. */
