@@ -2,8 +2,9 @@
 final class Telling {
   private int wrong = 0;
 
-  /** Feeds a text, twenty bytes a call, and cuts what was fed too much. */
+  /** Makes a text the tape, fed twenty bytes a call; what was fed too much is cut. */
   static void tape(OnePair x, String text) {
+    x.end(0);
     int[] numbers = new int[5];
     for (int begin = 0; begin < text.length(); begin += 20) {
       for (int i = 0; i < 5; i++) {
