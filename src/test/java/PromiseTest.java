@@ -691,8 +691,7 @@ public final class PromiseTest {
 
   private static void promise27Needs() {
     OnePair x = of(VALLEY, null);
-    // From 1 x is 1103527590, 2524885223, 662824084, 3295386429, 4182499122, 2516284547, 3655513600, ...:
-    // shifted, of 4, 6 and 3: house 2 f 0 m 3; 3 1 1; 0 5 1; house 3, f 2, m 2; 1 1 1.
+    // what is drawn is worked out here, the harm of each is promise 21's
     int[] x16 = new int[15];
     int now = 1;
     for (int i = 0; i < x16.length; i++) {
