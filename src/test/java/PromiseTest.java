@@ -516,6 +516,7 @@ public final class PromiseTest {
     bestDue(VALLEY, "own 3 0 0 6;", 1, 0, 0, 0);
     bestDue(VALLEY, "own 2 0 0 6;", 2, 45, 30, 20);
     bestDue(VALLEY, "", 7, 205, 10, 84);
+    bestDue("slots 48;" + "touch 99 9 9;".repeat(7) + "colour 0 9 9;", "", 7, 2925, 99, 1300);
     bestDue("slots 1;eye 0 1 0;eye 9 9 0;", "", 1, 1, 0, 1);
     bestDue("slots 1;eye 0 1 0;eye 9 9 0;", "", 2, 9, 9, 9);
     bestDue("slots 2;pace 9;eye 0 1 0;eye 27 9 0;", "", 2, 9, 27, 9);
@@ -666,6 +667,7 @@ public final class PromiseTest {
     OnePair parts = of(VALLEY, "own 0 0 0 3;own 3 0 3 4;own 0 0 4 6;");
     dealDue(parts, 3, 0, 1, 4, 6, 6);
     dealDue(parts, 3, 3, 0, 3, 4, 2);
+    dealDue(of(VALLEY, "own 7 0 0 6;"), 1, 7, 1, NONE, NONE, NONE);
     due("25 another what", x.deal(0, 0, 1, 0, 0, 1, 3), NONE);
     due("25 nor this", x.deal(0, 0, 1, 0, 0, 1, -1), NONE);
     due("25 another day", x.deal(0, 0, 1, 1, 0, 1, 0), NONE);
@@ -813,6 +815,22 @@ public final class PromiseTest {
     Telling.tell(x, 1, 0, "at 1 1 2;at 0 3 4;");
     Telling.tell(x, 1, 2, "at 1 1 2;");
     due("32 the last has fewest", x.likely(0, 0), 2);
+    // rows 0 and 1 of house 0 are wrong by both; told twice, row 0 leaves one more untold
+    Telling.tell(x, 0, 0, "slots 2;eye 0 1 1;eye 0 1 1;eye 0 1 0;");
+    Telling.tell(x, 3, 0, "error 0 0;error 0 0;error 1 0;error 1 1;");
+    Telling.tell(x, 1, 0, "at 1 1 2;");
+    Telling.tell(x, 1, 1, "at 2 1 2;");
+    Telling.tell(x, 1, 2, "");
+    due("32 explained of 0", x.blame(0, 0, 0, 0), 3);
+    due("32 explained of 1", x.blame(0, 1, 0, 0), 4);
+    due("32 explained of 2", x.blame(0, 2, 0, 0), 2);
+    due("32 untold is of rows", x.blame(0, 1, 0, 1), 1);
+    due("32 by most errors", x.likely(0, 0), 1);
+    // both explain 2: round 0 two rows of 4 that are wrong, round 1 one row, told twice, of 3
+    OnePair twice = Telling.told("slots 3;eye 0 0 0;eye 0 1 1;eye 0 9 1;start 1;", "at 2 1 2;", null,
+        "error 2 1;error 2 1;error 1 0;error 1 1;");
+    Telling.tell(twice, 1, NONE, "");
+    due("32 told once and twice", twice.likely(0, 0), 0);
     due("32 no valley", x.likely(1, 0), NONE);
     due("32 no list", x.likely(0, 1), NONE);
     due("32 no rounds", Telling.told(VALLEY, null, null, "").likely(0, 0), NONE);
