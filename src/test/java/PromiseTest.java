@@ -431,6 +431,8 @@ public final class PromiseTest {
     ownerDue("own 5 3 2 4;sell 5 0 3 3 4;", 1, 3, 5, 5);
     ownerDue("own 5 3 2 4;pawn 5 0 3 3 4;", 2, 3, 5, 0);
     ownerDue("own 5 3 2 4;pawn 5 0 3 3 4;back 1;", 3, 3, 5, 5);
+    ownerDue("own 5 3 2 4;pawn 5 0 3 2 3;pawn 5 1 3 3 4;back 1;", 4, 3, 5, 1);
+    ownerDue("own 5 3 2 4;pawn 5 0 3 2 3;pawn 5 1 3 3 4;back 2;", 4, 2, 5, 0);
     ownerDue("own 5 3 2 4;will 5 1;dies 5;", 3, 3, 1, 1);
     ownerDue("own 5 3 2 4;will 5 1;will 5 2;dies 5;", 4, 3, 2, 2);
     ownerDue("own 5 3 2 4;dies 5;", 2, 3, NONE, NONE);
@@ -667,6 +669,11 @@ public final class PromiseTest {
     OnePair parts = of(VALLEY, "own 0 0 0 3;own 3 0 3 4;own 0 0 4 6;");
     dealDue(parts, 3, 0, 1, 4, 6, 6);
     dealDue(parts, 3, 3, 0, 3, 4, 2);
+    dealDue(of("slots 1;eye 0 1 0;eye 9 9 0;", "own 1 0 0 1;"), 1, 1, 0, 0, 1, 1);
+    String musts = "slots 5;eye 0 5 0;eye 18 5 0;must 1 2 3;";
+    dealDue(of(musts, "own 0 0 0 5;"), 1, 0, 1, 0, 5, 15);
+    dealDue(of(musts + "must 0 1 2;", "own 0 0 0 5;"), 1, 0, 1, NONE, NONE, NONE);
+    dealDue(of("slots 4;eye 0 1 0;eye 18 5 0;must 0 1 2;", "own 0 0 0 4;"), 1, 0, 1, NONE, NONE, NONE);
     dealDue(of(VALLEY, "own 7 0 0 6;"), 1, 7, 1, NONE, NONE, NONE);
     due("25 another what", x.deal(0, 0, 1, 0, 0, 1, 3), NONE);
     due("25 nor this", x.deal(0, 0, 1, 0, 0, 1, -1), NONE);
@@ -831,6 +838,8 @@ public final class PromiseTest {
         "error 2 1;error 2 1;error 1 0;error 1 1;");
     Telling.tell(twice, 1, NONE, "");
     due("32 told once and twice", twice.likely(0, 0), 0);
+    Telling.tell(twice, 3, 0, "error 2 1;error 2 1;error 2 1;error 1 0;error 1 1;");
+    due("32 told thrice", twice.likely(0, 0), 1);
     due("32 no valley", x.likely(1, 0), NONE);
     due("32 no list", x.likely(0, 1), NONE);
     due("32 no rounds", Telling.told(VALLEY, null, null, "").likely(0, 0), NONE);
@@ -880,6 +889,14 @@ public final class PromiseTest {
     OnePair far = of(VALLEY, "own 7 0 0 6;");
     due("35 of one that is not in the valley", far.buys(0, 0, 1, 0, 0, NONE), 6);
     due("35 the least", far.buys(0, 0, 1, 0, 0, 0), 0);
+    String all = "own 7 0 0 4;";
+    OnePair must = of("slots 4;eye 0 1 0;eye 18 5 0;must 1 2 3;", all);
+    due("35 a way up to a must", must.buys(0, 0, 1, 0, 1, NONE), 2);
+    due("35 gain of both slots", must.buys(0, 0, 1, 0, 1, -2), 10);
+    OnePair over = of("slots 4;eye 0 0 0;eye 18 5 0;must 0 1 2;", all);
+    due("35 no way over a must", over.buys(0, 0, 1, 0, 1, NONE), 0);
+    OnePair other = of("slots 3;eye 0 0 0;eye 9 5 0;must 0 1 2;", all);
+    due("35 not in another's must", other.buys(0, 0, 1, 0, 1, NONE), 0);
     due("35 another k", x.buys(0, 0, 1, 0, 1, -3), -2);
     due("35 no house", x.buys(0, 0, 1, 0, 4, NONE), -2);
     due("35 no state", x.buys(0, 0, 2, 0, 1, NONE), -2);
