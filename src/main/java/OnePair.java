@@ -295,6 +295,7 @@ public final class OnePair {
             trip.follow(plan);
             return trip.spot[f];
         }
+        plan.reachAll();
         int harm = plan.harmOf(most, house, f, t);
         return harm == NONE ? NO_SUCH : harm;
     }
@@ -321,6 +322,7 @@ public final class OnePair {
         if (most == NONE || !plan.valley.hasHouse(house) || !plan.valley.hasSlots(f, t)) {
             return false;
         }
+        plan.reachAll();
         int harm = plan.harmOf(most, house, f, t);
         if (harm == NONE || odds < 0 || odds > 100) {
             return false;
@@ -359,6 +361,7 @@ public final class OnePair {
         if (most == NONE) {
             return NO_SUCH;
         }
+        plan.reachAll();
         int x = seed;
         int all = 0;
         int failed = 0;
@@ -457,6 +460,7 @@ public final class OnePair {
         if (most == NONE || !plan.valley.hasHouse(house) || m < 1 || m > plan.valley.slots) {
             return NO_SUCH;
         }
+        plan.reachAll();
         int least = NONE;
         int found = NONE;
         for (int f = 0; f <= plan.valley.slots - m; f++) {
@@ -1483,7 +1487,8 @@ public final class OnePair {
         private final int[] steps = new int[HOUSES * HOUSES];
         private final int[] time = new int[HOUSES * HOUSES];
         private final int[] score = new int[(WEEK_DAYS * SLOTS + 1) * HOUSES];
-        private final int[] reach = new int[(WEEK_DAYS * SLOTS + 1) * HOUSES];
+        /** Of one day alone, as all is that is told by it. */
+        private final int[] reach = new int[(SLOTS + 1) * HOUSES];
 
         Plan() {
         }
@@ -1567,12 +1572,13 @@ public final class OnePair {
         /** The most GAIN, ending at a HOUSE (NONE: at any); NONE if there is no such way. */
         int solve(int goal) {
             countFree();
-            for (int h = 0; h < valley.houses.count; h++) {
+            int houses = valley.houses.count;
+            for (int h = 0; h < houses; h++) {
                 score[slots * HOUSES + h] = goal == NONE || goal == h ? 0 : BAD;
             }
             for (int s = slots - 1; s >= 0; s--) {
-                for (int h = 0; h < valley.houses.count; h++) {
-                    score[s * HOUSES + h] = bestFrom(s, h);
+                for (int h = 0; h < houses; h++) {
+                    score[s * HOUSES + h] = bestFrom(s, h, houses);
                 }
             }
             return gainOf(score[valley.start]);
@@ -1585,11 +1591,15 @@ public final class OnePair {
             }
         }
 
-        private int bestFrom(int s, int h) {
+        /** The best of staying and all of going, in one loop: most of the time of a plan is spent here. */
+        private int bestFrom(int s, int h, int houses) {
             int most = staying(s, h);
-            for (int b = 0; b < valley.houses.count; b++) {
-                if (b != h) {
-                    most = Math.max(most, going(s, h, b));
+            int limit = s + free[s];
+            for (int b = 0; b < houses; b++) {
+                int end = s + time[h * HOUSES + b];
+                if (b != h && end <= limit) {
+                    int now = score[end * HOUSES + b] - steps[h * HOUSES + b];
+                    most = now > most ? now : most;
                 }
             }
             return most;
@@ -1642,11 +1652,21 @@ public final class OnePair {
             return all == BAD ? NONE : gainOf(all) * UNIT - all;
         }
 
+        /** By what is reached up to the slots and what comes behind them; NONE if none can be there in all. */
         int harmOf(int most, int house, int from, int to) {
-            fill(false, 0);
-            require(house, from, to);
-            int now = solve(NONE);
-            return now == NONE ? NONE : most - now;
+            int ahead = reach[from * HOUSES + house];
+            int rest = score[to * HOUSES + house];
+            if (ahead == BAD || rest == BAD) {
+                return NONE;
+            }
+            int all = ahead + rest;
+            for (int s = from; s < to; s++) {
+                if (!canStay(s, house)) {
+                    return NONE;
+                }
+                all += gain[s * HOUSES + house] * UNIT;
+            }
+            return most - gainOf(all);
         }
 
         int lossOf(int most, int house, int from, int to) {
