@@ -343,7 +343,7 @@ public final class OnePair {
     }
 
     public int halved(int valley, int ledger, int n, int day, int what) {
-        if (what < 0 || what > 1 || !isLaidOut(valley, ledger, n, day, 1)) {
+        if (what < 0 || what > 1 || gainOfDay(valley, ledger, n, day) == NONE) {
             return NONE;
         }
         plan.dropMusts();

@@ -633,8 +633,9 @@ public final class OracleTest {
       }
     }
     int twice = 2 * eyes.go().gain();
-    due("halved 0", x.halved(0, l, n, day, 0), twice);
-    due("halved 1", x.halved(0, l, n, day, 1), twice > all.go().gain() ? 1 : 0);
+    boolean isBest = world(s, day).go().best != null;
+    due("halved 0", x.halved(0, l, n, day, 0), isBest ? twice : NONE);
+    due("halved 1", x.halved(0, l, n, day, 1), !isBest ? NONE : twice > all.go().gain() ? 1 : 0);
   }
 
   static int harm(State s, int day, int gain, int h, int f, int t) {

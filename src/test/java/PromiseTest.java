@@ -690,7 +690,10 @@ public final class PromiseTest {
     OnePair even = of("slots 2;eye 0 1 0;two 9 4 0;must 1 1 2;", null);
     due("26 without musts", even.halved(0, NONE, 0, 0, 0), 4);
     due("26 as much is not above", even.halved(0, NONE, 0, 0, 1), 0);
-    due("26 musts that can't be", of(NOWHERE, null).halved(0, NONE, 0, 0, 0), 24);
+    due("26 no best", of(NOWHERE, null).halved(0, NONE, 0, 0, 0), NONE);
+    due("26 no best to be above", of(NOWHERE, null).halved(0, NONE, 0, 0, 1), NONE);
+    OnePair bound = of("slots 4;eye 0 2 0;eye 9 3 0;must 0 3 4;", null);
+    due("26 without a must that can be", bound.halved(0, NONE, 0, 0, 0), 18);
     due("26 another what", x.halved(0, 0, 0, 0, 2), NONE);
     due("26 nor this", x.halved(0, 0, 0, 0, -1), NONE);
     due("26 no state", x.halved(0, 0, 2, 0, 0), NONE);
