@@ -25,6 +25,8 @@ public final class PromiseTest {
   }
 
   private static void promise1NewObject() {
+    due("1 fault at once", new OnePair().fault(0), 0);
+    due("1 place at once", new OnePair().fault(1), NONE);
     OnePair x = new OnePair();
     for (int sort = 0; sort < 4; sort++) {
       due("1 count", x.count(sort), 0);
@@ -111,8 +113,18 @@ public final class PromiseTest {
       due("4 later ones strike " + what, x.valley(0, what), due[what]);
     }
     due("4 but for a text of its own", Telling.tell(x, 0, 0, "eye 1 1 1;"), 0);
-    due("4 slots are as at first", x.valley(0, 0), 24);
-    due("4 start is as at first", x.valley(0, 4), 0);
+    int[] first = {24, 9, 0, 48, 0, 1, 0};
+    for (int what = 0; what < first.length; what++) {
+      due("4 as at first " + what, x.valley(0, what), first[what]);
+    }
+    Telling.tell(x, 0, 0, "slots 5;pace 2;light 3 4;start 1;eye 0 0 0;eye 0 0 0;must 1 3 4;!");
+    due("4 nor of a text with a fault", Telling.tell(x, 0, 0, "eye 1 1 1;"), 0);
+    for (int what = 0; what < first.length; what++) {
+      due("4 as at first, behind a fault " + what, x.valley(0, what), first[what]);
+    }
+    Telling.tell(x, 0, 0, "eye 0 0 0;must 0 3 4;must 0 5 6;");
+    due("4 musts of a text of its own", Telling.tell(x, 0, 0, "eye 0 0 0;must 0 7 8;"), 0);
+    due("4 one must", x.valley(0, 6) * 10 + x.valley(0, 20), 17);
     due("4 glued", Telling.tell(x, 1, NONE, "at1 2 3;at 7\n0\n48;"), 0);
     due("4 glued leg", x.leg(0, 0, 0) * 100 + x.leg(0, 0, 1) * 10 + x.leg(0, 0, 2), 123);
     due("4 leg behind blanks", x.leg(0, 1, 2), 48);
@@ -635,6 +647,11 @@ public final class PromiseTest {
     due("24 spare", even.worth(0, NONE, 0, 0, NONE, 3, 4), 5);
     due("24 below", even.pays(0, NONE, 0, 0, 1, 3, 4, 33), false);
     due("24 above", even.pays(0, NONE, 0, 0, 1, 3, 4, 34), true);
+    OnePair fresh = of("slots 4;pace 10;eye 0 5 0;eye 30 5 0;", "own 1 1 0 4;");
+    due("24 no harm, no call ahead", fresh.pays(0, NONE, 0, 0, 0, 3, 4, 100), false);
+    due("24 another day ahead", fresh.pays(0, 0, 1, 1, 0, 0, 4, 100), false);
+    due("24 below, behind another day", fresh.pays(0, NONE, 0, 0, 1, 3, 4, 33), false);
+    due("24 above, behind another day", fresh.pays(0, NONE, 0, 0, 1, 3, 4, 34), true);
     OnePair half = of("slots 3;pace 10;eye 0 5 0;eye 20 5 0;", null);
     due("24 as much is not above", half.pays(0, NONE, 0, 0, 1, 2, 3, 50), false);
     due("24 a bit more is", half.pays(0, NONE, 0, 0, 1, 2, 3, 51), true);
@@ -723,6 +740,7 @@ public final class PromiseTest {
       not += harm == -2 ? 1 : 0;
       greatest = Math.max(greatest, harm);
       due("27 all", x.needs(0, NONE, 0, 0, 1, k, 0), all);
+      due("27 all, no call ahead", of(VALLEY, null).needs(0, NONE, 0, 0, 1, k, 0), all);
       due("27 not counted", x.needs(0, NONE, 0, 0, 1, k, 1), not);
       due("27 the greatest", x.needs(0, NONE, 0, 0, 1, k, 2), greatest);
     }
