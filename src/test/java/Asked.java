@@ -50,7 +50,7 @@ final class Asked {
     if (Telling.tell(x, sort, OnePair.NONE, text) < 0) {
       throw new IllegalStateException("refused: " + text);
     }
-    calls += (text.length() + 19) / 20 + 3;
+    calls += Telling.calls(text);
   }
 
   /** The object, for one call. */
@@ -80,5 +80,15 @@ final class Asked {
     } catch (ReflectiveOperationException e) {
       throw new IllegalStateException(name, e);
     }
+  }
+
+  /** Asks by a line such as "best 0 -1 0 0 1 2". */
+  long line(String line) {
+    String[] words = line.split(" ");
+    long[] numbers = new long[words.length - 1];
+    for (int i = 0; i < numbers.length; i++) {
+      numbers[i] = Long.parseLong(words[i + 1]);
+    }
+    return ask(words[0], numbers);
   }
 }

@@ -73,6 +73,11 @@ public final class BestBoundaryTest {
     // cracked, another house is best: 1 house of two glasses, 3 a slot instead of 7, 5 with one glass
     best("slots 4;two 0 7 0;eye 0 5 0;", 0, 28);
     best("slots 4;two 0 7 0;eye 0 5 0;", 2, 15);
+    Asked lit = by("slots 5;light 1 3;colour 0 7 0;", null);
+    for (int days = 1; days < 8; days++) {
+      b.asks(lit, "best 0 -1 0 6 " + days + " 0", 14 * days);
+      b.asks(lit, "best 0 -1 0 6 " + days + " 2", 6 * days);
+    }
     Asked x = by("slots 5;eye 0 2 0;eye 99 1 0;", "own 0 0 0 2;own 1 0 2 3;own 7 0 3 4;pawn 0 1 0 1 2;own 0 1 0 5;");
     int[] due = {10, 10, 8, 6, 4};
     for (int n = 0; n < due.length; n++) {
@@ -96,6 +101,14 @@ public final class BestBoundaryTest {
     best(TWO + "must 0 2 4;must 1 3 4;", 0, NONE);
     best(TWO + "must 1 3 4;must 0 2 4;", 0, NONE);
     best(TWO + "must 1 3 4;must 1 3 4;must 0 3 4;must 1 3 4;", 0, NONE);
+    for (int one = 0; one < 8; one++) {
+      int two = (one + 1) % 8;
+      String ahead = "slots 6;" + "eye 0 1 0;".repeat(8) + "must " + one + " 1 3;";
+      best(ahead + "must " + two + " 2 4;", 0, NONE);
+      best(ahead + "must " + two + " 0 2;", 0, NONE);
+      best(ahead + "must " + two + " 3 4;", 0, NONE);
+      best(ahead + "must " + one + " 2 4;", 0, one == 0 ? 6 : 5);
+    }
     best("slots 2;pace 9;eye 0 0 0;eye 10 1 0;must 1 1 2;", 0, NONE);
     best("slots 3;pace 9;eye 0 0 0;eye 10 1 0;must 1 2 3;", 0, 1);
     best("slots 3;pace 9;eye 0 0 0;eye 10 1 0;must 0 1 2;must 1 2 3;", 0, NONE);
@@ -167,6 +180,18 @@ public final class BestBoundaryTest {
     Asked one = by("slots 1;eye 0 1 0;eye 0 9 0;", null);
     b.asks(one, "harm 0 -1 0 0 0 0 1 0", 0);
     b.asks(one, "harm 0 -1 0 0 1 0 1 0", -2);
+    Asked last = by("slots 6;pace 9;start 1;eye 9 5 0;eye 0 1 0;eye 9 5 0;", null);
+    int[] first = {-2, 4, -2};
+    int[] second = {0, 25 - 2 - 15, 0};
+    for (int h = 0; h < 3; h++) {
+      b.asks(last, "harm 0 -1 0 0 " + h + " 0 1 0", first[h]);
+      b.asks(last, "harm 0 -1 0 0 " + h + " 1 2 0", second[h]);
+    }
+    Asked reached = by(TWO + "must 1 1 2;must 0 3 4;must 1 5 6;", null);
+    String[] needs = {"1 1 2", "0 3 4", "1 5 6", "1 2 3", "0 2 3", "0 4 5", "1 4 5", "1 0 1", "0 0 1"};
+    for (int i = 0; i < needs.length; i++) {
+      b.asks(reached, "harm 0 -1 0 0 " + needs[i] + " 0", i < 3 ? 0 : -2);
+    }
     b.says("LENDER: SPOT of the first of them, by BEST.");
     b.asks(x, "harm 0 -1 0 0 0 0 1 1", NONE);
     b.asks(x, "harm 0 -1 0 0 0 0 6 1", NONE);
@@ -213,6 +238,11 @@ public final class BestBoundaryTest {
     b.asks(x, "worth 0 0 2 1 1 0 6", 0);
     b.asks(x, "worth 0 0 2 1 0 0 6", 6);
     b.asks(x, "worth 0 0 2 1 0 5 6", 1);
+    Asked glasses = by("slots 6;pace 9;eye 0 1 0;two 9 5 0;colour 9 4 0;", null);
+    b.asks(glasses, "worth 0 -1 0 0 1 0 6", 5);
+    b.asks(glasses, "worth 0 -1 0 0 -1 5 6", 5);
+    b.asks(glasses, "worth 0 -1 0 0 1 5 6", 5);
+    b.asks(glasses, "worth 0 -1 0 0 -1 0 6", 25);
     Asked touch = by("slots 6;touch 0 9 0;eye 9 1 0;", null);
     b.asks(touch, "worth 0 -1 0 0 0 0 6", 0);
     b.asks(touch, "worth 0 -1 0 0 1 0 6", 5);

@@ -56,12 +56,7 @@ final class Boundary {
 
   /** Asks by a line such as "best 0 -1 0 0 1 2". */
   void asks(Asked asked, String line, long want) {
-    String[] words = line.split(" ");
-    long[] numbers = new long[words.length - 1];
-    for (int i = 0; i < numbers.length; i++) {
-      numbers[i] = Long.parseLong(words[i + 1]);
-    }
-    due(line, asked.ask(words[0], numbers), want);
+    due(line, asked.line(line), want);
   }
 
   /** A text that a new object takes. */
@@ -90,12 +85,7 @@ final class Boundary {
   void edges(Asked asked, String line, int refusal, int k, String answered, String refused) {
     for (String number : answered.split(" ")) {
       String changed = with(line, k, number);
-      String[] words = changed.split(" ");
-      long[] numbers = new long[words.length - 1];
-      for (int i = 0; i < numbers.length; i++) {
-        numbers[i] = Long.parseLong(words[i + 1]);
-      }
-      due(changed + " is answered", asked.ask(words[0], numbers) != refusal, true);
+      due(changed + " is answered", asked.line(changed) != refusal, true);
     }
     List<String> wrong = new ArrayList<>(Arrays.asList(refused.split(" ")));
     wrong.add("" + LEAST);

@@ -51,6 +51,9 @@ public final class DayBoundaryTest {
     ofDay("slots 3;light 2 3;colour 0 1 0;", 5, 2);
     ofDay("slots 48;light 47 48;colour 0 1 0;", 5, 47);
     ofDay(TWO, 5, 2);
+    // 5 in slot 0, 3 in slots 2 and 3: one slot alone
+    ofDay("slots 4;pace 9;eye 0 5 0;eye 9 3 0;must 0 0 1;must 1 2 4;", 5, 0);
+    ofDay("slots 4;pace 9;eye 0 3 0;eye 9 5 0;must 0 0 2;must 1 3 4;", 5, 3);
     // either of two slots can be had, not both: none is of any spare
     day("slots 3;pace 9;eye 50 0 0;eye 41 5 0;eye 59 5 0;", "own 7 0 0 1;own 1 0 1 2;own 2 0 2 3;", 5, 0, 1, 1, 1, NONE);
     b.says("LESSON: the HOUSE by which, if its KIND was TOUCH, YIELD grows most, above 0; of several the least.");
@@ -63,6 +66,9 @@ public final class DayBoundaryTest {
     ofDay("slots 4;eye 0 1 0;eye 99 2 0;touch 0 1 0;eye 9 1 0;eye 9 2 0;", 6, 1);
     ofDay("slots 4;" + "eye 0 0 0;".repeat(7) + "eye 0 1 0;", 6, 7);
     ofDay("slots 4;eye 0 3 0;eye 0 5 0;", 6, 1);
+    // by whole glasses house 1 makes more by touch, by cracked ones house 0 would
+    ofDay("slots 4;eye 0 1 0;two 0 3 0;eye 0 2 0;", 6, 1);
+    ofDay("slots 5;eye 0 0 0;two 0 5 0;eye 0 4 0;", 6, 1);
     b.says("ENOUGH: the least PACE by which BEST's GAIN is what it is by 99.");
     for (int pace : new int[] {1, 9, 98, 99}) {
       String ahead = "slots 2;pace " + pace + ";eye 0 0 0;";
@@ -74,6 +80,8 @@ public final class DayBoundaryTest {
       ofDay(ahead, 7, 1);
       ofDay("slots 3;pace " + pace + ";eye 0 5 0;eye 99 4 0;", 7, 1);
     }
+    ofDay("slots 4;eye 0 3 0;two 99 5 0;", 7, 99);
+    ofDay("slots 4;eye 0 3 0;colour 99 5 0;", 7, 99);
     ofDay("slots 3;pace 50;eye 0 0 0;eye 20 0 0;must 1 1 2;", 7, 20);
     ofDay("slots 3;pace 50;eye 0 0 0;eye 20 0 0;must 1 2 3;", 7, 10);
     ofDay("slots 4;pace 50;eye 0 0 0;eye 99 1 0;must 1 3 4;", 7, 99);

@@ -383,7 +383,7 @@ public final class OracleTest {
   // ---- comparing
 
   static final Telling TELLING = new Telling();
-  static OnePair x;
+  static Asked x;
   static Model m;
 
   static void due(String what, long got, long want) {
@@ -475,20 +475,20 @@ public final class OracleTest {
       Set<Integer> slots = new HashSet<>();
       for (int n = 0; n < rows.size(); n++) {
         int[] row = rows.get(n);
-        due("row slot", x.row(0, r, h, n, 0), row[0]);
-        due("row wrong", x.row(0, r, h, n, 1), row[1]);
-        due("row where", x.row(0, r, h, n, 2), where[row[0]]);
+        due("row slot", x.once().row(0, r, h, n, 0), row[0]);
+        due("row wrong", x.once().row(0, r, h, n, 1), row[1]);
+        due("row where", x.once().row(0, r, h, n, 2), where[row[0]]);
         if (row[1] == 1) {
           first = first == NONE ? n : first;
           bad++;
           slots.add(row[0]);
         }
       }
-      due("no row", x.row(0, r, h, rows.size(), 0), -2);
-      due("rows", x.rows(0, r, h, 0), rows.size());
-      due("rows wrong", x.rows(0, r, h, 1), bad);
-      due("rows first", x.rows(0, r, h, 2), first);
-      due("rows slots", x.rows(0, r, h, 3), slots.size());
+      due("no row", x.once().row(0, r, h, rows.size(), 0), -2);
+      due("rows", x.once().rows(0, r, h, 0), rows.size());
+      due("rows wrong", x.once().rows(0, r, h, 1), bad);
+      due("rows first", x.once().rows(0, r, h, 2), first);
+      due("rows slots", x.once().rows(0, r, h, 3), slots.size());
       right += rows.size() - bad;
       wrong += bad;
       for (int s = 0; s < m.slots; s++) {
@@ -497,11 +497,11 @@ public final class OracleTest {
       }
     }
     for (int s = 0; s < m.slots; s++) {
-      due("where", x.where(0, r, s), where[s]);
+      due("where", x.once().where(0, r, s), where[s]);
     }
     int[] play = {where[m.slots], right, wrong, where[m.slots + 1], cracked, wrong};
     for (int what = 0; what < play.length; what++) {
-      due("play " + what, x.play(0, r, what), play[what]);
+      due("play " + what, x.once().play(0, r, what), play[what]);
     }
   }
 
@@ -513,26 +513,26 @@ public final class OracleTest {
         int[] where = gone(m.rounds.get(r));
         int[] byHouse = new int[8];
         int[] now = explainedAndUntold(where, m.lists.get(l), byHouse);
-        due("explained", x.blame(0, r, l, 0), now[0]);
-        due("untold", x.blame(0, r, l, 1), now[1]);
+        due("explained", x.once().blame(0, r, l, 0), now[0]);
+        due("untold", x.once().blame(0, r, l, 1), now[1]);
         int culprit = NONE;
         for (int h = 7; h >= 0; h--) {
           if (byHouse[h] > 0 && (culprit == NONE || byHouse[h] >= byHouse[culprit])) {
             culprit = h;
           }
         }
-        due("culprit", x.blame(0, r, l, 2), culprit);
+        due("culprit", x.once().blame(0, r, l, 2), culprit);
         for (int k = 0; k < m.lists.get(l).size(); k++) {
           int[] e = m.lists.get(l).get(k);
           List<int[]> rows = e[0] < m.houses.size() ? rowsOf(e[0], where) : new ArrayList<>();
-          due("made", x.blame(0, r, l, 10 + k), e[1] < rows.size() ? rows.get(e[1])[0] : NONE);
+          due("made", x.once().blame(0, r, l, 10 + k), e[1] < rows.size() ? rows.get(e[1])[0] : NONE);
         }
         if (now[0] > most[0] || now[0] == most[0] && now[1] < most[1]) {
           most = now;
           likely = r;
         }
       }
-      due("likely", x.likely(0, l), likely);
+      due("likely", x.once().likely(0, l), likely);
     }
   }
 
@@ -540,7 +540,7 @@ public final class OracleTest {
     int[] done = {0};
     m.state(l, 99, done);
     int stop = done[0];
-    due("stop", x.stop(l), stop);
+    due("stop", x.once().stop(l), stop);
     for (int n = -1; n <= stop + 1; n++) {
       State s = m.state(l, n, done);
       boolean is = n >= 0 && n <= stop;
@@ -553,16 +553,16 @@ public final class OracleTest {
             holds += s.holder[d][i] == h ? 1 : 0;
           }
         }
-        due("has 0", x.has(l, n, h, 0), is ? owns : -2);
-        due("has 1", x.has(l, n, h, 1), is ? holds : -2);
-        due("has 2", x.has(l, n, h, 2), is ? s.heir[h] : -2);
-        due("has 3", x.has(l, n, h, 3), is ? s.dead[h] ? 1 : 0 : -2);
+        due("has 0", x.once().has(l, n, h, 0), is ? owns : -2);
+        due("has 1", x.once().has(l, n, h, 1), is ? holds : -2);
+        due("has 2", x.once().has(l, n, h, 2), is ? s.heir[h] : -2);
+        due("has 3", x.once().has(l, n, h, 3), is ? s.dead[h] ? 1 : 0 : -2);
       }
       for (int tries = 0; tries < 20; tries++) {
         int d = below(7);
         int i = below(48);
-        due("owner", x.owner(l, n, d, i, false), is ? s.owner[d][i] : -2);
-        due("holder", x.owner(l, n, d, i, true), is ? s.holder[d][i] : -2);
+        due("owner", x.once().owner(l, n, d, i, false), is ? s.owner[d][i] : -2);
+        due("holder", x.once().owner(l, n, d, i, true), is ? s.holder[d][i] : -2);
       }
       for (int r = 0; r < m.rounds.size(); r++) {
         int day = below(7);
@@ -575,7 +575,7 @@ public final class OracleTest {
             first = holder != NONE && holder != legs.get(k)[0] ? k : first;
           }
         }
-        due("lawful", x.lawful(0, r, l, n, day), is ? first : -2);
+        due("lawful", x.once().lawful(0, r, l, n, day), is ? first : -2);
       }
     }
   }
@@ -590,20 +590,20 @@ public final class OracleTest {
     World w = world(s, day).go();
     int gain = w.gain();
     World broken = new World(m, s.holder, day, 1, true, NO_TOUCH).go();
-    due("best 0", x.best(0, l, n, day, 1, 0), gain);
-    due("best 1", x.best(0, l, n, day, 1, 1), w.best == null ? NONE : w.best.climb);
-    due("best 2", x.best(0, l, n, day, 1, 2), broken.gain());
-    due("ways", x.ways(0, l, n, day), w.best == null ? -2 : w.many);
+    due("best 0", x.once().best(0, l, n, day, 1, 0), gain);
+    due("best 1", x.once().best(0, l, n, day, 1, 1), w.best == null ? NONE : w.best.climb);
+    due("best 2", x.once().best(0, l, n, day, 1, 2), broken.gain());
+    due("ways", x.once().ways(0, l, n, day), w.best == null ? -2 : w.many);
     for (int i = 0; i < m.slots; i++) {
-      due("spot", x.spot(0, l, n, day, 1, 0, i), w.best == null ? -2 : w.best.spot[i]);
+      due("spot", x.once().spot(0, l, n, day, 1, 0, i), w.best == null ? -2 : w.best.spot[i]);
       int h = below(m.houses.size());
       int want = w.best == null ? -2 : w.best.free[i] + m.time(w.best.goal[i], h, m.pace);
-      due("soon", x.soon(0, l, n, day, h, i), want);
+      due("soon", x.once().soon(0, l, n, day, h, i), want);
     }
     World ending = world(s, day);
     ending.end = m.start;
-    due("home 0", x.home(0, l, n, day, 0), w.best == null ? -2 : ending.go().gain());
-    due("home 1", x.home(0, l, n, day, 1), w.best == null ? -2 : w.best.last);
+    due("home 0", x.once().home(0, l, n, day, 0), w.best == null ? -2 : ending.go().gain());
+    due("home 1", x.once().home(0, l, n, day, 1), w.best == null ? -2 : w.best.last);
     compareHalved(l, n, s, day);
     compareNeeds(l, n, s, day, w);
     compareTrade(l, n, s, day, gain);
@@ -614,10 +614,10 @@ public final class OracleTest {
     int days = 2 + below(2);
     int day = below(7);
     World w = new World(m, s.holder, day, days, false, NO_TOUCH).go();
-    due("days 0", x.best(0, l, n, day, days, 0), w.gain());
-    due("days 1", x.best(0, l, n, day, days, 1), w.best == null ? NONE : w.best.climb);
+    due("days 0", x.once().best(0, l, n, day, days, 0), w.gain());
+    due("days 1", x.once().best(0, l, n, day, days, 1), w.best == null ? NONE : w.best.climb);
     for (int i = 0; i < m.slots * days; i++) {
-      int got = x.spot(0, l, n, day, days, i / m.slots, i % m.slots);
+      int got = x.once().spot(0, l, n, day, days, i / m.slots, i % m.slots);
       due("days spot", got, w.best == null ? -2 : w.best.spot[i]);
     }
   }
@@ -634,8 +634,8 @@ public final class OracleTest {
     }
     int twice = 2 * eyes.go().gain();
     boolean isBest = world(s, day).go().best != null;
-    due("halved 0", x.halved(0, l, n, day, 0), isBest ? twice : NONE);
-    due("halved 1", x.halved(0, l, n, day, 1), !isBest ? NONE : twice > all.go().gain() ? 1 : 0);
+    due("halved 0", x.once().halved(0, l, n, day, 0), isBest ? twice : NONE);
+    due("halved 1", x.once().halved(0, l, n, day, 1), !isBest ? NONE : twice > all.go().gain() ? 1 : 0);
   }
 
   static int harm(State s, int day, int gain, int h, int f, int t) {
@@ -649,15 +649,15 @@ public final class OracleTest {
       int f = below(m.slots);
       int t = f + 1 + below(m.slots - f);
       int harm = w.best == null ? NONE : harm(s, day, w.gain(), h, f, t);
-      due("harm", x.harm(0, l, n, day, h, f, t, false), harm == NONE ? -2 : harm);
-      due("lender", x.harm(0, l, n, day, h, f, t, true), w.best == null ? -2 : w.best.spot[f]);
+      due("harm", x.once().harm(0, l, n, day, h, f, t, false), harm == NONE ? -2 : harm);
+      due("lender", x.once().harm(0, l, n, day, h, f, t, true), w.best == null ? -2 : w.best.spot[f]);
       int worth = w.best == null ? -2 : w.gain() - world(s, day).bar(h, f, t).go().gain();
-      due("worth", x.worth(0, l, n, day, h, f, t), worth);
+      due("worth", x.once().worth(0, l, n, day, h, f, t), worth);
       int spare = w.best == null ? -2 : w.gain() - world(s, day).bar(NONE, f, t).go().gain();
-      due("spare", x.worth(0, l, n, day, NONE, f, t), spare);
+      due("spare", x.once().worth(0, l, n, day, NONE, f, t), spare);
       int odds = below(101);
       boolean pays = harm != NONE && odds * harm > 100 * spare;
-      due("pays", x.pays(0, l, n, day, h, f, t, odds) ? 1 : 0, pays ? 1 : 0);
+      due("pays", x.once().pays(0, l, n, day, h, f, t, odds) ? 1 : 0, pays ? 1 : 0);
       int size = 1 + below(m.slots);
       int least = NONE;
       int at = NONE;
@@ -668,8 +668,8 @@ public final class OracleTest {
           at = i;
         }
       }
-      due("ease", x.ease(0, l, n, day, h, size, false), w.best == null ? -2 : at);
-      due("ease harm", x.ease(0, l, n, day, h, size, true), w.best == null ? -2 : least);
+      due("ease", x.once().ease(0, l, n, day, h, size, false), w.best == null ? -2 : at);
+      due("ease harm", x.once().ease(0, l, n, day, h, size, true), w.best == null ? -2 : least);
     }
     int seed = RANDOM.nextInt();
     int k = 1 + below(9);
@@ -685,7 +685,7 @@ public final class OracleTest {
       needs[2] = Math.max(needs[2], harm);
     }
     for (int what = 0; what < 3; what++) {
-      due("needs " + what, x.needs(0, l, n, day, seed, k, what), w.best == null ? -2 : needs[what]);
+      due("needs " + what, x.once().needs(0, l, n, day, seed, k, what), w.best == null ? -2 : needs[what]);
     }
   }
 
@@ -712,7 +712,7 @@ public final class OracleTest {
         }
       }
       for (int what = 0; what < 3; what++) {
-        due("deal " + what, x.deal(0, l, n, day, one, two, what), deal[2] == 0 ? NONE : deal[what]);
+        due("deal " + what, x.once().deal(0, l, n, day, one, two, what), deal[2] == 0 ? NONE : deal[what]);
       }
     }
     int h = below(m.houses.size());
@@ -741,12 +741,12 @@ public final class OracleTest {
       }
     }
     System.arraycopy(kept, 0, now, 0, 48);
-    due("buys", x.buys(0, l, n, day, h, NONE), gain == NONE ? -2 : bought.size());
-    due("buys gain", x.buys(0, l, n, day, h, -2), gain == NONE ? -2 : most);
+    due("buys", x.once().buys(0, l, n, day, h, NONE), gain == NONE ? -2 : bought.size());
+    due("buys gain", x.once().buys(0, l, n, day, h, -2), gain == NONE ? -2 : most);
     for (int k = 0; k < bought.size(); k++) {
-      due("buys slot", x.buys(0, l, n, day, h, k), bought.get(k));
+      due("buys slot", x.once().buys(0, l, n, day, h, k), bought.get(k));
     }
-    due("buys no more", x.buys(0, l, n, day, h, bought.size()), -2);
+    due("buys no more", x.once().buys(0, l, n, day, h, bought.size()), -2);
   }
 
   static int yieldOf(State s, int day, Set<Integer> touch) {
@@ -760,9 +760,9 @@ public final class OracleTest {
   static void compareDay(int l, int n, State s, int day, World w) {
     if (w.best == null) {
       for (int what = 0; what < 18; what++) {
-        due("day none", x.day(0, l, n, day, what), -2);
+        due("day none", x.once().day(0, l, n, day, what), -2);
       }
-      due("both none", x.both(0, l, n, day, false), -2);
+      due("both none", x.once().both(0, l, n, day, false), -2);
       return;
     }
     int yield = yieldOf(s, day, NO_TOUCH);
@@ -827,78 +827,73 @@ public final class OracleTest {
     }
     int[] want = {yield, spoiled, idle, road, longest, dearest, lesson, enough};
     for (int what = 0; what < want.length; what++) {
-      due("day " + what, x.day(0, l, n, day, what), want[what]);
+      due("day " + what, x.once().day(0, l, n, day, what), want[what]);
     }
     for (int h = 0; h < m.houses.size(); h++) {
-      due("day stay", x.day(0, l, n, day, 10 + h), stay[h]);
+      due("day stay", x.once().day(0, l, n, day, 10 + h), stay[h]);
     }
-    due("both first", x.both(0, l, n, day, false), first);
-    due("both second", x.both(0, l, n, day, true), second);
+    due("both first", x.once().both(0, l, n, day, false), first);
+    due("both second", x.once().both(0, l, n, day, true), second);
   }
 
   static void compareTold() {
-    due("slots", x.valley(0, 0), m.slots);
-    due("pace", x.valley(0, 1), m.pace);
-    due("light", x.valley(0, 2), m.lightFrom);
-    due("dark", x.valley(0, 3), m.lightTo);
-    due("start", x.valley(0, 4), m.start);
-    due("houses", x.valley(0, 5), m.houses.size());
-    due("musts", x.valley(0, 6), m.musts.size());
+    due("slots", x.once().valley(0, 0), m.slots);
+    due("pace", x.once().valley(0, 1), m.pace);
+    due("light", x.once().valley(0, 2), m.lightFrom);
+    due("dark", x.once().valley(0, 3), m.lightTo);
+    due("start", x.once().valley(0, 4), m.start);
+    due("houses", x.once().valley(0, 5), m.houses.size());
+    due("musts", x.once().valley(0, 6), m.musts.size());
     for (int k = 0; k < m.musts.size(); k++) {
       for (int i = 0; i < 3; i++) {
-        due("must", x.valley(0, 10 + 10 * i + k), m.musts.get(k)[i]);
+        due("must", x.once().valley(0, 10 + 10 * i + k), m.musts.get(k)[i]);
       }
     }
     for (int h = 0; h < m.houses.size(); h++) {
       for (int i = 0; i < 4; i++) {
-        due("house", x.house(0, h, i), m.houses.get(h)[i]);
+        due("house", x.once().house(0, h, i), m.houses.get(h)[i]);
       }
       for (int b = 0; b < m.houses.size(); b++) {
-        due("steps", x.way(0, h, b, false), m.steps(h, b));
-        due("way", x.way(0, h, b, true), m.time(h, b, m.pace));
+        due("steps", x.once().way(0, h, b, false), m.steps(h, b));
+        due("way", x.once().way(0, h, b, true), m.time(h, b, m.pace));
       }
     }
     for (int r = 0; r < m.rounds.size(); r++) {
-      due("legs", x.leg(r, NONE, 0), m.rounds.get(r).size());
+      due("legs", x.once().leg(r, NONE, 0), m.rounds.get(r).size());
       for (int k = 0; k < m.rounds.get(r).size(); k++) {
         for (int i = 0; i < 3; i++) {
-          due("leg", x.leg(r, k, i), m.rounds.get(r).get(k)[i]);
+          due("leg", x.once().leg(r, k, i), m.rounds.get(r).get(k)[i]);
         }
       }
     }
     for (int l = 0; l < m.ledgers.size(); l++) {
-      due("deeds", x.deed(l, NONE, 0), m.ledgers.get(l).size());
+      due("deeds", x.once().deed(l, NONE, 0), m.ledgers.get(l).size());
       for (int k = 0; k < m.ledgers.get(l).size(); k++) {
         int[] deed = m.ledgers.get(l).get(k);
         for (int i = 0; i < 6; i++) {
-          due("deed", x.deed(l, k, i), i < deed.length ? deed[i] : NONE);
+          due("deed", x.once().deed(l, k, i), i < deed.length ? deed[i] : NONE);
         }
       }
     }
     for (int l = 0; l < m.lists.size(); l++) {
-      due("errors", x.error(l, NONE, 0), m.lists.get(l).size());
+      due("errors", x.once().error(l, NONE, 0), m.lists.get(l).size());
       for (int k = 0; k < m.lists.get(l).size(); k++) {
-        due("error house", x.error(l, k, 0), m.lists.get(l).get(k)[0]);
-        due("error row", x.error(l, k, 1), m.lists.get(l).get(k)[1]);
+        due("error house", x.once().error(l, k, 0), m.lists.get(l).get(k)[0]);
+        due("error row", x.once().error(l, k, 1), m.lists.get(l).get(k)[1]);
       }
     }
   }
 
-  static void tell(int sort, String text) {
-    int number = x.count(sort);
-    due("text " + text, Telling.tell(x, sort, NONE, text), number);
-  }
-
   static void compareAll(int slots, int houses, int musts, boolean dear) {
-    x = new OnePair();
+    x = new Asked();
     m = new Model();
-    tell(0, valley(m, slots, houses, musts));
+    x.and(0, valley(m, slots, houses, musts));
     for (int i = 0; i < 3; i++) {
-      tell(1, round(m));
+      x.and(1, round(m));
     }
     for (int i = 0; i < 2; i++) {
-      tell(2, ledger(m));
-      tell(3, list(m));
+      x.and(2, ledger(m));
+      x.and(3, list(m));
     }
     compareTold();
     for (int r = 0; r < 3; r++) {
@@ -930,9 +925,9 @@ public final class OracleTest {
         unlike += a.holder[d][i] == b.holder[d][i] ? 0 : 1;
       }
     }
-    due("cross", x.cross(0, 1), unlike);
-    due("cross back", x.cross(1, 0), unlike);
-    due("cross self", x.cross(1, 1), 0);
+    due("cross", x.once().cross(0, 1), unlike);
+    due("cross back", x.once().cross(1, 0), unlike);
+    due("cross self", x.once().cross(1, 1), 0);
   }
 
   public static void main(String[] args) {

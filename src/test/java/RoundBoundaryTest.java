@@ -226,6 +226,11 @@ public final class RoundBoundaryTest {
     b.asks(blind, "rows 0 0 0 3", 0);
     b.asks(blind, "rows 0 0 1 1", 6);
     b.asks(blind, "rows 0 0 1 3", 2);
+    Asked there = on("slots 4;start 1;eye 0 1 1;eye 9 1 1;", "");
+    for (int what = 0; what < 4; what++) {
+      b.asks(there, "rows 0 0 1 " + what, what == 0 ? 4 : what == 2 ? NONE : 0);
+      b.asks(there, "rows 0 0 0 " + what, what == 2 ? 0 : 4);
+    }
     Asked last = on("slots 3;light 0 2;colour 0 4 1;", "");
     b.asks(last, "rows 0 0 0 2", 8);
     b.asks(last, "rows 0 0 0 3", 1);
@@ -268,6 +273,11 @@ public final class RoundBoundaryTest {
     blame("error 1 0;error 1 0;error 0 3;", 3, 3, 0);
     blame("error 0 2;error 1 1;", 2, 3, NONE);
     blame("error 1 0;error 0 0;error 0 0;error 1 5;error 1 6;", 1, 4, 0);
+    Asked lists = Asked.of(FOUR_SLOTS, "at 1 2 3;", null, "error 0 3;error 0 4;error 0 3;").and(3, "error 1 0;");
+    for (int turn = 0; turn < 3; turn++) {
+      b.asks(lists, "blame 0 0 0 2", 1);
+      b.asks(lists, "blame 0 0 1 2", 0);
+    }
     Asked last = Asked.of("slots 2;" + "eye 0 0 1;".repeat(8) + "start 7;", "", null, "error 6 0;error 0 1;");
     b.asks(last, "blame 0 0 0 2", 7);
   }
@@ -291,6 +301,11 @@ public final class RoundBoundaryTest {
     likely("error 0 3;", 1, "", "at 1 2 3;");
     likely("error 0 3;", 1, "", "at 1 2 3;", "at 1 2 3;");
     likely("error 0 3;error 1 3;error 1 3;", 0, "", "at 1 2 3;");
+    // told twice, a row is explained twice, and once less untold
+    likely("error 0 3;error 0 3;error 1 2;", 1, "", "at 1 2 3;");
+    likely("error 1 2;error 1 2;error 0 2;error 0 3;", 0, "at 1 2 3;", "");
+    likely("error 1 2;error 1 2;error 0 2;error 0 3;", 0, "", "at 1 2 3;");
+    likely("error 1 2;error 1 3;error 0 2;error 0 2;", 1, "at 1 2 3;", "");
     likely("", 0, "");
     likely("", 0, "", "at 1 2 3;");
     likely("", 2, "at 1 2 3;", "at 1 2 3;", "");

@@ -24,6 +24,11 @@ final class Telling {
     return x.text(sort, at);
   }
 
+  /** How many calls of an object it takes to tell a text. */
+  static int calls(String text) {
+    return (text.length() + 19) / 20 + 3;
+  }
+
   /** An object to which texts are told as a valley, a round, a ledger and a list; null: none of that sort. */
   static OnePair told(String valley, String round, String ledger, String list) {
     OnePair x = new OnePair();

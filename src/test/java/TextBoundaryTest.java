@@ -286,6 +286,25 @@ public final class TextBoundaryTest {
     for (int c = 0; c < 256; c++) {
       sign((char) c);
     }
+    String[] longer = {"eyeeye 1 2 3;", "at 0 0 123;", "dies 1;;", "error 0 11;", "slots 481;"};
+    int[] end = {3, 9, 7, 9, 8};
+    int[] sorts = {0, 1, 2, 3, 0};
+    for (int i = 0; i < longer.length; i++) {
+      OnePair x = new OnePair();
+      Telling.tape(x, longer[i]);
+      x.end(end[i]);
+      boolean fits = i == 2;
+      b.due("what is cut is of no token: " + longer[i], x.text(sorts[i], NONE), fits ? 0 : NONE);
+      b.due("place, where it was cut: " + longer[i], x.fault(1), fits ? NONE : end[i]);
+    }
+    for (String last : new String[] {"eye", "12", ";", "eye 1 2 3", "slots 4", "pace 48", "eye 1 2 3;", "   "}) {
+      OnePair x = new OnePair();
+      Telling.tape(x, " ".repeat(600 - last.length() - 10) + "eye 9 8 7;" + last);
+      int fault = last.equals(";") || last.equals("12") ? 600 - last.length() : 600;
+      boolean fits = last.endsWith("3;") || last.equals("   ");
+      b.due("the last of 600: " + last, x.text(0, NONE), fits ? 0 : NONE);
+      b.due("its place: " + last, x.fault(1), fits ? NONE : fault);
+    }
     b.takes(2, "dies1;dies 2 ;\ndies\n\n 3\n ; ");
     b.takes(1, "at00 00 01;at 0 0 1;");
     b.takes(2, "dies 07;");
@@ -400,6 +419,15 @@ public final class TextBoundaryTest {
     for (int what = 0; what < 6; what++) {
       b.asks(least, "valley 0 " + what, due[0][what]);
       b.asks(most, "valley 0 " + what, due[1][what]);
+    }
+    OnePair x2 = new OnePair();
+    String full = "slots 48;pace 99;light 47 48;start 7;" + "two 9 9 9;".repeat(8) + "must 7 46 48;".repeat(6);
+    for (String ahead : new String[] {full, full + "!", full + "slots 0;", "start 1;slots 2;pace 3;light 4 5;must 0 0 1;"}) {
+      Telling.tell(x2, 0, x2.count(0) == 0 ? NONE : 0, ahead);
+      b.due("behind " + ahead, Telling.tell(x2, 0, 0, "eye 0 0 0;"), 0);
+      for (int what = 0; what < first.length; what++) {
+        b.due("first " + what + " behind " + ahead, x2.valley(0, what), first[what]);
+      }
     }
     b.says("a HEIGHT, 0 .. 99, a KIND: TOUCH (0), EYE (1), TWO (2), COLOUR (3), a RATE, 0 .. 9, a BLIND rate, 0 .. 9;");
     String[] kinds = {"touch", "eye", "two", "colour"};
@@ -586,6 +614,11 @@ public final class TextBoundaryTest {
   private static void images() {
     b.says("Image k (0 .. 2) is all that is told (the tape, the FAULT, too), as it is now: true; false for another k.");
     OnePair x = oneOfEach();
+    Telling.tell(x, 0, NONE, "two 3 4 5;");
+    Telling.tell(x, 1, NONE, "at 4 0 7;at 5 9 10;");
+    Telling.tell(x, 1, NONE, "at 3 0 3;at 5 9 10;at 0 11 12;");
+    Telling.tell(x, 2, NONE, "will 2 3;dies 2;");
+    Telling.tell(x, 3, NONE, "error 1 1;error 0 9;");
     Telling.tell(x, 3, NONE, "error 1 1;error 9 9;");
     Telling.tape(x, "dies 5;");
     String before = allOf(x);
@@ -598,16 +631,17 @@ public final class TextBoundaryTest {
       b.due("image " + k, x.image(k), true);
     }
     for (int sort = 0; sort < 4; sort++) {
-      Telling.tell(x, sort, NONE, A_TEXT[sort]);
-      Telling.tell(x, sort, 0, A_TEXT[sort] + A_TEXT[sort]);
+      for (int i = 0; i < MOST_TEXTS[sort]; i++) {
+        b.due("another one", Telling.tell(x, sort, i, A_TEXT[sort] + A_TEXT[sort] + A_TEXT[sort] + A_TEXT[sort]), i);
+      }
     }
     Telling.tape(x, "x");
     for (int k = 0; k < 3; k++) {
       b.due("again " + k, x.again(k), true);
       b.due("all as it was", allOf(x), before);
-      b.due("the tape as it was", x.text(2, NONE), 1);
+      b.due("the tape as it was", x.text(2, 1), 1);
       b.due("its text", x.deed(1, 0, 1), 5);
-      b.due("an image is none of what comes behind it", x.count(2), 2);
+      b.due("an image is none of what comes behind it", x.deed(1, NONE, 0), 1);
     }
     b.says("All that is as image k has it (other images stay): true; false if there is none such.");
     OnePair y = new OnePair();
@@ -619,6 +653,7 @@ public final class TextBoundaryTest {
     b.due("nothing again", y.again(1), true);
     b.due("no round", y.count(1), 0);
     b.due("no fault of a text", y.fault(0), 0);
+    b.due("no place of a fault", y.fault(1), NONE);
     b.due("no leg", y.leg(0, 0, 0), -2);
     b.due("one round again", y.again(2), true);
     b.due("its leg", y.leg(0, 0, 0), 1);

@@ -23,7 +23,7 @@ public final class WideTest {
   private static int start;
   private static final List<int[]> HOUSES = new ArrayList<>();
   private static final List<int[]> MUSTS = new ArrayList<>();
-  private static OnePair x;
+  private static Asked x;
   private static int ledger;
   private static int n;
   private static int day;
@@ -42,7 +42,7 @@ public final class WideTest {
       gain = new int[all][HOUSES.size()];
       for (int s = 0; s < all; s++) {
         must.add(new ArrayList<>());
-        int holder = x.owner(ledger, n, (day + s / slots) % 7, s % slots, true);
+        int holder = x.once().owner(ledger, n, (day + s / slots) % 7, s % slots, true);
         for (int h = 0; h < HOUSES.size(); h++) {
           hold(s, h, holder, cracked, touch);
         }
@@ -213,7 +213,7 @@ public final class WideTest {
       MUSTS.add(must);
       b.append(String.format("must %d %d %d;", must[0], must[1], must[2]));
     }
-    due("valley " + b, Telling.tell(x, 0, NONE, b.toString()), 0);
+    x.and(0, b.toString());
   }
 
   private static void tellLedger() {
@@ -230,21 +230,21 @@ public final class WideTest {
     for (int k = 0; k < Math.min(30, deeds.length); k++) {
       first.append(deeds[k]).append(';');
     }
-    due("ledger " + first, Telling.tell(x, 2, NONE, first.toString()), 0);
+    x.and(2, first.toString());
   }
 
   private static void compareDays() {
     int days = 1 + below(7);
     Best best = new Best(days, false, 0);
     int gain = best.solve();
-    due("days gain", x.best(0, ledger, n, day, days, 0), gain);
-    due("days climb", x.best(0, ledger, n, day, days, 1), gain == NONE ? NONE : best.climb());
-    due("days cracked", x.best(0, ledger, n, day, days, 2), new Best(days, true, 0).solve());
+    due("days gain", x.once().best(0, ledger, n, day, days, 0), gain);
+    due("days climb", x.once().best(0, ledger, n, day, days, 1), gain == NONE ? NONE : best.climb());
+    due("days cracked", x.once().best(0, ledger, n, day, days, 2), new Best(days, true, 0).solve());
     List<int[]> spots = gain == NONE ? null : best.follow();
     for (int i = 0; i < 60; i++) {
       int s = below(best.all);
       int want = gain == NONE ? -2 : spots.get(s)[0];
-      due("days spot", x.spot(0, ledger, n, day, days, s / slots, s % slots), want);
+      due("days spot", x.once().spot(0, ledger, n, day, days, s / slots, s % slots), want);
     }
   }
 
@@ -256,11 +256,11 @@ public final class WideTest {
       int by = new Best().need(h, f, t).solve();
       int spare = gain - new Best().bar(NONE, f, t).solve();
       int odds = below(101);
-      due("harm", x.harm(0, ledger, n, day, h, f, t, false), by == NONE ? -2 : gain - by);
-      due("worth", x.worth(0, ledger, n, day, h, f, t), gain - new Best().bar(h, f, t).solve());
-      due("spare", x.worth(0, ledger, n, day, NONE, f, t), spare);
+      due("harm", x.once().harm(0, ledger, n, day, h, f, t, false), by == NONE ? -2 : gain - by);
+      due("worth", x.once().worth(0, ledger, n, day, h, f, t), gain - new Best().bar(h, f, t).solve());
+      due("spare", x.once().worth(0, ledger, n, day, NONE, f, t), spare);
       boolean pays = by != NONE && odds * (gain - by) > 100 * spare;
-      T.due("pays", x.pays(0, ledger, n, day, h, f, t, odds), pays);
+      T.due("pays", x.once().pays(0, ledger, n, day, h, f, t, odds), pays);
     }
     int h = below(HOUSES.size());
     int m = 1 + below(Math.min(slots, 6));
@@ -273,12 +273,12 @@ public final class WideTest {
         ease = f;
       }
     }
-    due("ease", x.ease(0, ledger, n, day, h, m, false), ease);
-    due("ease harm", x.ease(0, ledger, n, day, h, m, true), least);
+    due("ease", x.once().ease(0, ledger, n, day, h, m, false), ease);
+    due("ease harm", x.once().ease(0, ledger, n, day, h, m, true), least);
   }
 
   private static int holder(int slot) {
-    return x.owner(ledger, n, day, slot, true);
+    return x.once().owner(ledger, n, day, slot, true);
   }
 
   private static void compareDeal(int gain, int one, int two) {
@@ -296,7 +296,7 @@ public final class WideTest {
       }
     }
     for (int what = 0; what < 3; what++) {
-      due("deal " + what, x.deal(0, ledger, n, day, one, two, what), deal[2] == 0 ? NONE : deal[what]);
+      due("deal " + what, x.once().deal(0, ledger, n, day, one, two, what), deal[2] == 0 ? NONE : deal[what]);
     }
   }
 
@@ -323,10 +323,10 @@ public final class WideTest {
         bought.add(slot);
       }
     }
-    due("buys", x.buys(0, ledger, n, day, h, NONE), bought.size());
-    due("buys gain", x.buys(0, ledger, n, day, h, -2), most);
+    due("buys", x.once().buys(0, ledger, n, day, h, NONE), bought.size());
+    due("buys gain", x.once().buys(0, ledger, n, day, h, -2), most);
     for (int k = 0; k < bought.size(); k++) {
-      due("buys slot", x.buys(0, ledger, n, day, h, k), bought.get(k));
+      due("buys slot", x.once().buys(0, ledger, n, day, h, k), bought.get(k));
     }
   }
 
@@ -350,7 +350,7 @@ public final class WideTest {
       int at = spots.get(s)[0];
       idle += at != NONE && told.gain[s][at] == 0 ? 1 : 0;
       for (int h = 0; h < HOUSES.size(); h++) {
-        due("soon", x.soon(0, ledger, n, day, h, s), spots.get(s)[2] + time(spots.get(s)[1], h, pace));
+        due("soon", x.once().soon(0, ledger, n, day, h, s), spots.get(s)[2] + time(spots.get(s)[1], h, pace));
       }
     }
     int made = yieldBy(0);
@@ -378,36 +378,36 @@ public final class WideTest {
       swift.by = 99;
       enough = slow.solve() == swift.solve() ? by : enough;
     }
-    due("yield", x.day(0, ledger, n, day, 0), made);
-    due("idle", x.day(0, ledger, n, day, 2), idle);
-    due("dearest", x.day(0, ledger, n, day, 5), dearest);
-    due("lesson", x.day(0, ledger, n, day, 6), lesson);
-    due("enough", x.day(0, ledger, n, day, 7), enough);
-    due("both one", x.both(0, ledger, n, day, false), both[0]);
-    due("both two", x.both(0, ledger, n, day, true), both[1]);
+    due("yield", x.once().day(0, ledger, n, day, 0), made);
+    due("idle", x.once().day(0, ledger, n, day, 2), idle);
+    due("dearest", x.once().day(0, ledger, n, day, 5), dearest);
+    due("lesson", x.once().day(0, ledger, n, day, 6), lesson);
+    due("enough", x.once().day(0, ledger, n, day, 7), enough);
+    due("both one", x.once().both(0, ledger, n, day, false), both[0]);
+    due("both two", x.once().both(0, ledger, n, day, true), both[1]);
   }
 
   private static void compareAll() {
-    x = new OnePair();
+    x = new Asked();
     ledger = 0;
     day = below(7);
     tellValley();
     tellLedger();
-    n = below(5) == 0 ? below(x.stop(0) + 1) : x.stop(0);
+    n = below(5) == 0 ? below(x.once().stop(0) + 1) : x.once().stop(0);
     compareDays();
     Best best = new Best();
     int gain = best.solve();
     if (gain == NONE) {
-      due("no best", x.ways(0, ledger, n, day), -2);
-      due("no best to halve", x.halved(0, ledger, n, day, 0), NONE);
+      due("no best", x.once().ways(0, ledger, n, day), -2);
+      due("no best to halve", x.once().halved(0, ledger, n, day, 0), NONE);
       return;
     }
     List<int[]> spots = best.follow();
-    due("ways", x.ways(0, ledger, n, day), best.ways().longValue());
-    due("last", x.home(0, ledger, n, day, 1), spots.get(slots)[0]);
+    due("ways", x.once().ways(0, ledger, n, day), best.ways().longValue());
+    due("last", x.once().home(0, ledger, n, day, 1), spots.get(slots)[0]);
     Best home = new Best();
     home.goal = start;
-    due("home", x.home(0, ledger, n, day, 0), home.solve());
+    due("home", x.once().home(0, ledger, n, day, 0), home.solve());
     compareOfSlots(gain);
     for (int i = 0; i < 3 && HOUSES.size() > 1; i++) {
       int one = Math.max(0, holder(below(slots))) % HOUSES.size();

@@ -26,16 +26,20 @@ public final class WildTest {
     return kind < 3 ? ODD[RANDOM.nextInt(ODD.length)] : RANDOM.nextInt(most);
   }
 
-  private static void tellBoth(OnePair x, OnePair y) {
+  /** How many calls of each that took. */
+  private static int tellBoth(OnePair x, OnePair y) {
+    int calls = 0;
     String[][] texts = {VALLEYS, ROUNDS, LEDGERS, LISTS};
     for (int sort = 0; sort < 4; sort++) {
       for (int i = RANDOM.nextInt(3); i > 0; i--) {
         String text = texts[sort][RANDOM.nextInt(texts[sort].length)];
+        calls += Telling.calls(text);
         if (Telling.tell(x, sort, -1, text) != Telling.tell(y, sort, -1, text)) {
           throw new IllegalStateException("told otherwise: " + text);
         }
       }
     }
+    return calls;
   }
 
   public static void main(String[] args) throws Exception {
@@ -51,8 +55,7 @@ public final class WildTest {
     for (int turn = 0; turn < 300; turn++) {
       OnePair x = new OnePair();
       OnePair y = new OnePair();
-      tellBoth(x, y);
-      for (int call = 0; call < 512; call++) {
+      for (int call = tellBoth(x, y); call < 512; call++) {
         Method m = methods.get(RANDOM.nextInt(methods.size()));
         Object[] numbers = new Object[m.getParameterCount()];
         for (int i = 0; i < numbers.length; i++) {
