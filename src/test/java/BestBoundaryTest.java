@@ -325,6 +325,7 @@ public final class BestBoundaryTest {
     deal(TWO, "own 0 0 0 6;", "1 1", NONE, NONE, NONE);
     deal(TWO, "own 0 0 0 6;", "0 2", NONE, NONE, NONE);
     deal(TWO, "own 0 0 0 6;", "2 1", NONE, NONE, NONE);
+    deal(TWO, "own 7 0 0 6;", "7 1", NONE, NONE, NONE);
     deal(TWO + "must 1 0 1;", "own 0 0 0 6;", "0 1", NONE, NONE, NONE);
   }
 

@@ -14,7 +14,7 @@ public final class EdgesTest {
     String valley = "slots 48;pace 50;light 0 48;start 0;eye 0 1 1;eye 99 3 2;two 50 5 3;colour 10 7 4;touch 20 2 5;"
         + "eye 30 4 6;two 40 6 7;eye 99 9 9;" + "must 0 0 1;".repeat(5) + "must 0 47 48;";
     String ledger = "own 0 0 0 48;own 0 6 0 48;" + "will 0 1;".repeat(28);
-    String round = "at 0 0 1;".repeat(1) + "at 7 40 41;" + "at 7 41 42;" + "at 7 45 46;".repeat(13);
+    String round = "at 0 0 1;at 7 40 41;at 7 41 42;" + "at 7 45 46;".repeat(13);
     Asked asked = Asked.of(valley, round, ledger, "error 7 99;".repeat(20)).and(0, valley).and(1, round).and(1, round);
     return asked.and(2, ledger).and(3, "error 0 0;".repeat(20));
   }
@@ -27,24 +27,21 @@ public final class EdgesTest {
   private static void toldNumbers() {
     Asked x = full();
     Asked one = small();
-    b.says("NONE: there is none such, or for another what.");
+    b.says("Of a VALLEY, what 0: SLOTS, 1: PACE, 2, 3: LIGHT from, to, 4: START, 5: HOUSES, 6: MUSTS,"
+        + " 10 + k, 20 + k, 30 + k: MUST k's HOUSE, f, t. NONE: there is none such, or for another what.");
     b.edges(x, "valley 0 0", NONE, 0, "0 1", "-2 -1 2 3");
     b.edges(x, "valley 0 0", NONE, 1, "0 1 2 3 4 5 6 10 11 15 20 25 30 35", "-2 -1 7 8 9 16 19 26 29 36 39 40 45 50 100");
     b.edges(one, "valley 0 0", NONE, 0, "0", "-1 1 2");
     b.edges(one, "valley 0 0", NONE, 1, "0 1 2 3 4 5 6", "-1 7 9 10 20 30 40");
     Asked must = Asked.of("eye 0 0 0;must 0 0 1;", null, null, null);
     b.edges(must, "valley 0 0", NONE, 1, "6 10 20 30", "9 11 19 21 29 31 40");
-    b.says("NONE: there is none such (of either), or for another what.");
+    b.says("Of a HOUSE, what 0: HEIGHT, 1: KIND, 2: RATE, 3: BLIND."
+        + " NONE: there is none such (of either), or for another what.");
     b.edges(x, "house 0 0 0", NONE, 0, "0 1", "-1 2");
     b.edges(x, "house 0 0 0", NONE, 1, "0 1 7", "-1 8");
     b.edges(x, "house 0 7 0", NONE, 2, "0 1 2 3", "-2 -1 4 5");
     b.edges(one, "house 0 0 0", NONE, 1, "0", "-1 1");
-    b.edges(x, "play 0 0 0", NONE, 0, "0 1", "-1 2");
-    b.edges(x, "play 0 0 0", NONE, 1, "0 1 2", "-1 3");
-    b.edges(x, "play 0 0 0", NONE, 2, "0 1 2 3 4 5", "-2 -1 6 7");
-    b.edges(one, "play 0 0 0", NONE, 0, "0", "-1 1");
-    b.edges(one, "play 0 0 0", NONE, 1, "0", "-1 1 2");
-    b.says("NONE: there is none such (of any).");
+    b.says("STEPS of two HOUSES, or (slots) how many slots a WAY takes. NONE: there is none such (of any).");
     b.edges(x, "way 0 0 0 0", NONE, 0, "0 1", "-1 2");
     for (int slots = 0; slots < 2; slots++) {
       b.edges(x, "way 0 0 1 " + slots, NONE, 1, "0 1 7", "-1 8");
@@ -52,6 +49,13 @@ public final class EdgesTest {
       b.edges(one, "way 0 0 0 " + slots, NONE, 1, "0", "-1 1");
       b.edges(one, "way 0 0 0 " + slots, NONE, 2, "0", "-1 1");
     }
+    b.says("Of a ROUND on a VALLEY, what 0: STOP, 1: RIGHT, 2: WRONG, 3: CLIMB, 4, 5: RIGHT, WRONG, if it is CRACKED."
+        + " NONE: there is none such (of either), or for another what.");
+    b.edges(x, "play 0 0 0", NONE, 0, "0 1", "-1 2");
+    b.edges(x, "play 0 0 0", NONE, 1, "0 1 2", "-1 3");
+    b.edges(x, "play 0 0 0", NONE, 2, "0 1 2 3 4 5", "-2 -1 6 7");
+    b.edges(one, "play 0 0 0", NONE, 0, "0", "-1 1");
+    b.edges(one, "play 0 0 0", NONE, 1, "0", "-1 1 2");
   }
 
   private static void linesOf(Asked x, String name, int sheets, int lines, int width) {
@@ -63,17 +67,25 @@ public final class EdgesTest {
     b.edges(x, name + " 0 " + (lines - 1) + " 0", -2, 2, "0 1 " + (width - 1), "-2 -1 " + width + " " + (width + 1));
   }
 
+  private static void noLines(String name) {
+    b.asks(small(), name + " 0 -1 0", 0);
+    b.edges(small(), name + " 0 -1 0", -2, 0, "0", "-1 1 2");
+    b.edges(small(), name + " 0 -1 0", -2, 1, "-1", "-2 0 1");
+  }
+
   private static void toldLines() {
-    Asked one = small();
-    b.says("-2: there is none such (of either), or for another what.");
+    b.says("How many LEGS (k NONE, what 0); of LEG k, what 0: its HOUSE, 1: f, 2: t."
+        + " -2: there is none such (of either), or for another what.");
     linesOf(full(), "leg", 3, 16, 3);
+    noLines("leg");
+    b.says("How many DEEDS (k NONE, what 0); of DEED k, what 0: 0 own, 1 sell, 2 pawn, 3 back, 4 will, 5 dies, 1 .. 5:"
+        + " its numbers as told (NONE without). -2: there is none such (of either), or for another what.");
     linesOf(full(), "deed", 2, 30, 6);
+    noLines("deed");
+    b.says("How many ERRORS (k NONE, what 0); of ERROR k, what 0: its HOUSE, 1: its ROW."
+        + " -2: there is none such (of either), or for another what.");
     linesOf(full(), "error", 2, 20, 2);
-    for (String name : new String[] {"leg", "deed", "error"}) {
-      b.asks(one, name + " 0 -1 0", 0);
-      b.edges(one, name + " 0 -1 0", -2, 0, "0", "-1 1 2");
-      b.edges(one, name + " 0 -1 0", -2, 1, "-1", "-2 0 1");
-    }
+    noLines("error");
   }
 
   private static void rounds() {
@@ -84,7 +96,8 @@ public final class EdgesTest {
     b.edges(x, "where 0 0 0", -2, 1, "0 1 2", "-1 3");
     b.edges(x, "where 0 0 0", -2, 2, "0 1 47", "-2 -1 48 49");
     b.edges(one, "where 0 0 0", -2, 2, "0", "-1 1 47");
-    b.says("where the pair was then (NONE: on a WAY). -2: there is none such (of any), or for another what.");
+    b.says("ROW n of a HOUSE, what 0: its slot, 1: 1 if it is wrong, else 0; 2: where the pair was then (NONE: on a WAY)."
+        + " -2: there is none such (of any), or for another what.");
     for (int what = 0; what < 3; what++) {
       b.edges(x, "row 0 0 0 0 " + what, -2, 0, "0 1", "-1 2");
       b.edges(x, "row 0 0 0 0 " + what, -2, 1, "0 1 2", "-1 3");
@@ -95,7 +108,8 @@ public final class EdgesTest {
       b.edges(one, "row 0 0 0 0 " + what, -2, 3, "0", "-1 1");
     }
     b.edges(x, "row 0 0 7 431 0", -2, 4, "0 1 2", "-2 -1 3 4");
-    b.says("slots in which one was made that is wrong (how many). -2: there is none such (of any), or for another what.");
+    b.says("Of a HOUSE and a ROUND, what 0: how many rows, 1: how many are wrong, 2: the first of these (NONE), 3: slots in"
+        + " which one was made that is wrong (how many). -2: there is none such (of any), or for another what.");
     b.edges(x, "rows 0 0 0 0", -2, 0, "0 1", "-1 2");
     b.edges(x, "rows 0 0 0 0", -2, 1, "0 1 2", "-1 3");
     b.edges(x, "rows 0 0 0 0", -2, 2, "0 7", "-1 8");
@@ -109,7 +123,8 @@ public final class EdgesTest {
     b.says("STOP. NONE: there is none such.");
     b.edges(x, "stop 0", NONE, 0, "0 1", "-2 -1 2");
     b.edges(one, "stop 0", NONE, 0, "0", "-1 1");
-    b.says("NONE: nobody. -2: there is no such STATE, day, slot.");
+    b.says("OWNER, or (holder) HOLDER of a slot, 0 .. 47, of a day, 0 .. 6. NONE: nobody."
+        + " -2: there is no such STATE, day, slot.");
     for (int holder = 0; holder < 2; holder++) {
       b.edges(x, "owner 0 0 0 0 " + holder, -2, 0, "-1 0 1", "-2 2");
       b.edges(x, "owner 0 0 0 0 " + holder, -2, 1, "0 1 30", "-2 -1 31");
@@ -119,14 +134,15 @@ public final class EdgesTest {
       b.edges(x, "owner 0 0 6 0 " + holder, -2, 3, "0 47", "-2 -1 48");
       b.edges(one, "owner 0 0 6 0 " + holder, -2, 3, "0 1 47", "-1 48");
     }
-    b.says("1 if it is dead, else 0. -2: there is no such STATE, or none such (of either).");
+    b.says("Of a HOUSE, 0 .. 7, what 0: how many slots of the week it OWNS, 1: HOLDS, 2: its HEIR as told (NONE),"
+        + " 3: 1 if it is dead, else 0. -2: there is no such STATE, or none such (of either).");
     b.edges(x, "has 0 0 0 0", -2, 0, "-1 0 1", "-2 2");
     b.edges(x, "has 0 0 0 0", -2, 1, "0 30", "-1 31");
     b.edges(x, "has -1 0 0 0", -2, 1, "0", "-1 1");
     b.edges(x, "has 0 0 0 0", -2, 2, "0 7", "-1 8");
     b.edges(one, "has 0 0 0 0", -2, 2, "0 7", "-1 8");
     b.edges(x, "has 0 0 7 0", -2, 3, "0 1 2 3", "-2 -1 4 5");
-    b.says("NONE, or the first LEG that is not. -2: there is no such STATE, day, or none such (of either).");
+    b.says("LAWFUL on a day: NONE, or the first LEG that is not. -2: there is no such STATE, day, or none such (of either).");
     b.edges(x, "lawful 0 0 0 0 0", -2, 0, "0 1", "-1 2");
     b.edges(x, "lawful 0 0 0 0 0", -2, 1, "0 1 2", "-1 3");
     b.edges(x, "lawful 0 0 0 0 0", -2, 2, "-1 0 1", "-2 2");
@@ -153,7 +169,8 @@ public final class EdgesTest {
 
   private static void best() {
     Asked x = full();
-    b.says("NONE: there is no BEST, no such STATE, day, number of days, VALLEY, or for another what.");
+    b.says("BEST from a day, so many days, what 0: GAIN, 1: CLIMB, 2: GAIN, if it is CRACKED."
+        + " NONE: there is no BEST, no such STATE, day, number of days, VALLEY, or for another what.");
     for (int what = 0; what < 3; what++) {
       stateOf(x, "best", NONE, " 1 " + what);
       b.edges(x, "best 0 0 30 6 1 " + what, NONE, 4, "1 2 6 7", "-2 -1 0 8 9");
@@ -173,7 +190,8 @@ public final class EdgesTest {
   private static void needsOfOne() {
     Asked x = full();
     Asked one = small();
-    b.says("-2: there is no BEST (HARM: or none with it), as best(), or there is no such HOUSE, slots.");
+    b.says("HARM, or (lender) LENDER (NONE: on a WAY); BEST of one day."
+        + " -2: there is no BEST (HARM: or none with it), as best(), or there is no such HOUSE, slots.");
     for (int lender = 0; lender < 2; lender++) {
       stateOf(x, "harm", -2, " 4 10 20 " + lender);
       b.edges(x, "harm 0 0 30 0 4 10 20 " + lender, -2, 4, "0 1 7", "-2 -1 8");
@@ -212,7 +230,8 @@ public final class EdgesTest {
     b.edges(x, "pays 0 0 30 0 4 20 46 100", 0, 5, "44 45", "-1 46 47 48");
     b.edges(x, "pays 0 0 30 0 4 20 30 100", 0, 6, "21 30", "-1 0 19 20 49");
     b.edges(x, "pays 0 0 30 0 4 10 20 100", 0, 7, "84 85 99 100", "-100 -1 0 1 83 101 102 200 1000");
-    b.says("HARM of each by itself; all together (those by which there is no BEST are not counted: how many), the greatest.");
+    b.says("NEEDS, what 0: all HARM, 1: how many are not counted, 2: the greatest HARM (0 without)."
+        + " -2: there is no BEST, as best(), another k, or for another what.");
     for (int what = 0; what < 3; what++) {
       stateOf(x, "needs", -2, " 1 3 " + what);
       b.edges(x, "needs 0 0 30 0 5 3 " + what, -2, 5, "1 2 8 9", "-2 -1 0 10 11");
@@ -225,7 +244,8 @@ public final class EdgesTest {
 
   private static void trades() {
     Asked x = full();
-    b.says("NONE: none, there is no BEST, both are one, there is no such HOUSE, or as best().");
+    b.says("DEAL, what 0: f, 1: t, 2: by how much."
+        + " NONE: none, there is no BEST, both are one, there is no such HOUSE, or as best().");
     for (int what = 0; what < 3; what++) {
       stateOf(x, "deal", NONE, " 0 1 " + what);
       b.edges(x, "deal 0 0 30 0 0 1 " + what, NONE, 4, "0", "-2 -1 1 2 8");
@@ -236,7 +256,7 @@ public final class EdgesTest {
     stateOf(x, "halved", NONE, " 0");
     stateOf(x, "halved", NONE, " 1");
     b.edges(x, "halved 0 0 30 0 0", NONE, 4, "0 1", "-2 -1 2 3");
-    b.says("how many (k NONE), the k-th slot, or (k -2) BEST's GAIN with all of them."
+    b.says("BUYS: how many (k NONE), the k-th slot, or (k -2) BEST's GAIN with all of them."
         + " -2: there is no BEST, as best(), or there is none such (of any).");
     stateOf(x, "buys", -2, " 1 -1");
     stateOf(x, "buys", -2, " 1 -2");
@@ -251,7 +271,8 @@ public final class EdgesTest {
   private static void days() {
     Asked x = full();
     Asked one = small();
-    b.says("STAY of HOUSE h. -2: there is no BEST, as best(), or for another what.");
+    b.says("What 0: YIELD, 1: SPOILED, 2: IDLE, 3: ROAD, 4: LONGEST, 5: DEAREST (NONE), 6: LESSON (NONE), 7: ENOUGH,"
+        + " 10 + h: STAY of HOUSE h. -2: there is no BEST, as best(), or for another what.");
     for (int what = 0; what < 18; what++) {
       if (what < 8 || what > 9) {
         stateOf(x, "day", -2, " " + what);
@@ -282,7 +303,8 @@ public final class EdgesTest {
   private static void errors() {
     Asked x = full();
     Asked one = small();
-    b.says("MADE of ERROR k (NONE: there is no such ROW, HOUSE). -2: there is none such (of any), or for another what.");
+    b.says("By a ROUND on a VALLEY, what 0: EXPLAINED, 1: UNTOLD, 2: CULPRIT (NONE), 10 + k: MADE of ERROR k"
+        + " (NONE: there is no such ROW, HOUSE). -2: there is none such (of any), or for another what.");
     for (int what : new int[] {0, 1, 2, 10}) {
       b.edges(x, "blame 0 0 0 " + what, -2, 0, "0 1", "-1 2");
       b.edges(x, "blame 0 0 0 " + what, -2, 1, "0 1 2", "-1 3");

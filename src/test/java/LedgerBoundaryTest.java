@@ -63,7 +63,11 @@ public final class LedgerBoundaryTest {
     stop("own 0 0 5 9;dies 0;own 1 0 5 9;", 3);
     stop("own 0 0 5 9;will 0 2;dies 0;own 1 0 5 9;", 3);
     stop("dies 0;own 0 0 5 9;", 1);
+    b.says("own: it OWNS and HOLDS them.");
     claim("own 7 3 0 48;", 0, 7, 7);
+    claim("own 7 3 5 6;", 5, 7, 7);
+    claim("own 7 3 5 6;", 4, NONE, NONE);
+    claim("own 7 3 5 6;", 6, NONE, NONE);
     claim("own 7 3 0 48;", 47, 7, 7);
     Asked week = by(WEEK);
     b.asks(week, "has 0 7 0 0", ALL);
@@ -148,6 +152,9 @@ public final class LedgerBoundaryTest {
     }
     stop("dies 0;dies 1;dies 2;dies 3;dies 4;dies 5;dies 6;dies 7;", 8);
     stop("dies 7;dies 6;dies 7;", 2);
+    b.says("will: its HEIR is the other one.");
+    claim("own 0 3 5 9;will 0 1;", 5, 0, 0);
+    claim("own 0 3 5 9;will 0 1;will 0 2;will 1 3;dies 0;", 5, 2, 2);
     Asked x = by("will 0 1;dies 0;dies 1;");
     int[][] due = {{0, 0, NONE, 0}, {0, 0, 1, 0}, {0, 0, 1, 1}, {0, 0, 1, 1}};
     for (int n = 0; n < 4; n++) {
@@ -272,7 +279,7 @@ public final class LedgerBoundaryTest {
       b.asks(touch, "lawful 0 0 0 0 " + day, NONE);
       b.asks(touch, "lawful 0 0 -1 0 " + day, NONE);
     }
-    Asked last = Asked.of("slots 48;eye 0 1 1;", "at 0 0 1;".repeat(1) + "at 0 47 48;", "own 1 6 47 48;own 1 0 0 1;", null);
+    Asked last = Asked.of("slots 48;eye 0 1 1;", "at 0 0 1;at 0 47 48;", "own 1 6 47 48;own 1 0 0 1;", null);
     b.asks(last, "lawful 0 0 0 2 6", 1);
     b.asks(last, "lawful 0 0 0 2 0", 0);
     b.asks(last, "lawful 0 0 0 1 0", NONE);

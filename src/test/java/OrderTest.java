@@ -128,6 +128,11 @@ public final class OrderTest {
         telling.due(lines.get(i) + " by steps of " + step, asked.line(lines.get(i)), alone[i]);
       }
     }
+    OnePair x = new OnePair();
+    Telling.tell(x, 0, OnePair.NONE, VALLEYS[1]);
+    for (int call = Telling.calls(VALLEYS[1]) + 1; call <= 512; call++) {
+      telling.due("call " + call, x.both(0, OnePair.NONE, 0, 0, true), 1);
+    }
     telling.close("OrderTest");
   }
 }

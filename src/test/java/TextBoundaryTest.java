@@ -567,6 +567,82 @@ public final class TextBoundaryTest {
     b.due("nothing of it is kept", x.error(0, NONE, 0), 1);
   }
 
+  private static void numbered() {
+    StringBuilder houses = new StringBuilder();
+    StringBuilder musts = new StringBuilder();
+    StringBuilder legs = new StringBuilder();
+    StringBuilder deeds = new StringBuilder();
+    StringBuilder errors = new StringBuilder();
+    for (int k = 0; k < 30; k++) {
+      houses.append(k < 8 ? "two " + (10 + k) + " " + k + " " + (8 - k) + ";" : "");
+      musts.append(k < 6 ? "must " + k + " " + (2 * k) + " " + (2 * k + 1) + ";" : "");
+      legs.append(k < 16 ? "at " + k % 8 + " " + k + " " + (k + 1) + ";" : "");
+      deeds.append("own ").append(k % 8).append(' ').append(k % 7).append(' ').append(k).append(' ').append(k + 1).append(';');
+      errors.append(k < 20 ? "error " + k % 8 + " " + (99 - k) + ";" : "");
+    }
+    Asked x = Asked.of(houses.toString() + musts, legs.toString(), deeds.toString(), errors.toString());
+    b.says("HOUSES, at most 8, from 0 on:");
+    for (int k = 0; k < 8; k++) {
+      b.asks(x, "house 0 " + k + " 0", 10 + k);
+      b.asks(x, "house 0 " + k + " 1", 2);
+      b.asks(x, "house 0 " + k + " 2", k);
+      b.asks(x, "house 0 " + k + " 3", 8 - k);
+    }
+    b.asks(x, "house 0 8 0", NONE);
+    b.asks(x, "valley 0 5", 8);
+    b.says("MUSTS, at most 6, from 0 on: a HOUSE, slots.");
+    for (int k = 0; k < 6; k++) {
+      b.asks(x, "valley 0 " + (10 + k), k);
+      b.asks(x, "valley 0 " + (20 + k), 2 * k);
+      b.asks(x, "valley 0 " + (30 + k), 2 * k + 1);
+    }
+    b.asks(x, "valley 0 16", NONE);
+    b.asks(x, "valley 0 6", 6);
+    b.says("A ROUND has LEGS, at most 16, from 0 on: a HOUSE, slots. A LEDGER has DEEDS, at most 30, from 0 on.");
+    for (int k = 0; k < 30; k++) {
+      int[] leg = {k % 8, k, k + 1};
+      int[] deed = {0, k % 8, k % 7, k, k + 1, NONE};
+      for (int what = 0; what < 6; what++) {
+        b.asks(x, "deed 0 " + k + " " + what, deed[what]);
+        b.asks(x, "leg 0 " + k + " " + what, k < 16 && what < 3 ? leg[what] : -2);
+      }
+    }
+    b.asks(x, "leg 0 -1 0", 16);
+    b.asks(x, "deed 0 -1 0", 30);
+    b.asks(x, "deed 0 30 0", -2);
+    b.says("A LIST has ERRORS, at most 20, from 0 on:");
+    for (int k = 0; k < 20; k++) {
+      b.asks(x, "error 0 " + k + " 0", k % 8);
+      b.asks(x, "error 0 " + k + " 1", 99 - k);
+    }
+    b.asks(x, "error 0 20 0", -2);
+    b.asks(x, "error 0 -1 0", 20);
+  }
+
+  private static void grammars() {
+    b.says("A VALLEY's text: {('slots' NUMBER | 'pace' NUMBER | 'light' NUMBER NUMBER | 'start' NUMBER | ('touch' | 'eye' |"
+        + " 'two' | 'colour') NUMBER NUMBER NUMBER | 'must' NUMBER NUMBER NUMBER) ';'}");
+    b.takes(0, "must 1 3 4;start 1;eye 1 2 3;light 3 4;colour 4 5 6;pace 7;slots 8;two 9 9 9;touch 0 0 0;");
+    b.says("A LEDGER's text: {('own' NUMBER NUMBER NUMBER NUMBER | ('sell' | 'pawn') NUMBER NUMBER NUMBER NUMBER NUMBER |"
+        + " 'back' NUMBER | 'will' NUMBER NUMBER | 'dies' NUMBER) ';'}");
+    b.takes(2, "dies 0;will 1 2;back 3;pawn 4 5 6 7 8;sell 5 4 3 2 10;own 1 2 3 4;dies 0;");
+    b.says("A LIST's text: {'error' NUMBER NUMBER ';'};");
+    b.takes(3, "error 1 2;error 1 2;");
+    int[] numbers = {1, 1, 2, 1, 3, 3, 3, 3, 3, 3, 4, 5, 5, 1, 2, 1, 2};
+    for (int word = 0; word < WORDS.length; word++) {
+      StringBuilder line = new StringBuilder(WORDS[word]);
+      for (int k = 0; k < 7; k++) {
+        String text = line + ";";
+        if (k < numbers[word]) {
+          b.faulty(sortOf(word), text, 1, text.length() - 1);
+        } else if (k > numbers[word]) {
+          b.faulty(sortOf(word), text, 1, text.length() - 2 * (k - numbers[word]));
+        }
+        line.append(' ').append(k);
+      }
+    }
+  }
+
   private static void notThere() {
     b.says("If there is none of these, at the end's place: 4 of a VALLEY START (0, too, without HOUSES),"
         + " a HOUSE of a MUST that is not there, or its t above SLOTS.");
@@ -699,6 +775,8 @@ public final class TextBoundaryTest {
     firstByPlace();
     numbersThatCannotBe();
     tooMany();
+    numbered();
+    grammars();
     notThere();
     images();
     manyCalls();
