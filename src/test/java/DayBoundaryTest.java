@@ -66,9 +66,9 @@ public final class DayBoundaryTest {
     ofDay("slots 4;eye 0 1 0;eye 99 2 0;touch 0 1 0;eye 9 1 0;eye 9 2 0;", 6, 1);
     ofDay("slots 4;" + "eye 0 0 0;".repeat(7) + "eye 0 1 0;", 6, 7);
     ofDay("slots 4;eye 0 3 0;eye 0 5 0;", 6, 1);
-    // by whole glasses house 1 makes more by touch, by cracked ones house 0 would
-    ofDay("slots 4;eye 0 1 0;two 0 3 0;eye 0 2 0;", 6, 1);
-    ofDay("slots 5;eye 0 0 0;two 0 5 0;eye 0 4 0;", 6, 1);
+    // by whole glasses 12 + 32 rows by house 0, 32 + 9 by house 1; by a cracked one 12 + 16
+    ofDay("slots 4;start 1;eye 0 3 0;two 0 8 0;", 6, 0);
+    ofDay("slots 4;start 1;eye 0 3 0;colour 0 8 0;", 6, 0);
     b.says("ENOUGH: the least PACE by which BEST's GAIN is what it is by 99.");
     for (int pace : new int[] {1, 9, 98, 99}) {
       String ahead = "slots 2;pace " + pace + ";eye 0 0 0;";
@@ -205,6 +205,8 @@ public final class DayBoundaryTest {
     both("slots 4;eye 0 1 0;eye 0 0 0;eye 0 9 0;eye 0 1 0;", 2, 3);
     both("slots 4;eye 0 0 0;eye 0 1 0;eye 0 1 0;eye 0 1 0;", 1, 2);
     both(THREE, 0, 1);
+    // by whole glasses 24 + 32 rows, or 12 + 32 + 9; by a cracked one 24 + 16
+    both("slots 4;start 2;eye 0 3 0;eye 0 3 0;two 0 8 0;", 0, 1);
   }
 
   private static void ease(String valley, int house, int m, int f, int harm) {
