@@ -108,6 +108,7 @@ public final class BestBoundaryTest {
       best(ahead + "must " + two + " 0 2;", 0, NONE);
       best(ahead + "must " + two + " 3 4;", 0, NONE);
       best(ahead + "must " + one + " 2 4;", 0, one == 0 ? 6 : 5);
+      best("slots 6;" + "eye 0 1 0;".repeat(8) + "must " + one + " 2 3;must " + two + " 2 3;", 0, NONE);
     }
     best("slots 2;pace 9;eye 0 0 0;eye 10 1 0;must 1 1 2;", 0, NONE);
     best("slots 3;pace 9;eye 0 0 0;eye 10 1 0;must 1 2 3;", 0, 1);
